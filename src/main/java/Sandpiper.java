@@ -29,8 +29,8 @@ public final class Sandpiper {
     private static final int ABOVE_ALL = 1000000;
 
     /**
-     * More than any settling needs: at most 361 grains lie on the beach ahead of it, and a grain lets cells topple
-     * at most 42 times 42 times on its way to the sea.
+     * More than any settling needs: at most 42 * 7 + 60 grains lie on the beach ahead of it, and each lets each of
+     * the 42 cells topple at most as often as its way to the sea is long, which is 42 times: 624456 in all.
      */
     private static final int MOST_TOPPLINGS = 1000000;
 
