@@ -58,6 +58,6 @@ final class HardCasesTest {
         for (int time = 0; time < 12; time++) {
             check.same("one way to the sea", beach.pour(5, 6, 60), plain.pour(5, 6, 60));
         }
-        check.same("one way to the sea, at last", Check.picture(beach), plain.picture());
+        check.same("one way to the sea, at last", Views.picture(beach), plain.picture());
     }
 }

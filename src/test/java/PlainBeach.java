@@ -389,7 +389,7 @@ final class PlainBeach {
         return (float) sand() / 42f;
     }
 
-    /** The same as Check.picture. */
+    /** The same as Views.picture. */
     String picture() {
         StringBuilder text = new StringBuilder();
         for (int column = 0; column < 6; column++) {

@@ -26,7 +26,7 @@ final class RandomRunsTest {
         for (int seed = 1; seed <= SHORT_RUNS; seed++) {
             RandomRunsTest run = new RandomRunsTest(-seed, 40);
             check.same("a short run, seed " + seed, run.firstDifference(SHORT_LIFE), "none");
-            check.same("its end, seed " + seed, Check.picture(run.beach), run.plain.picture());
+            check.same("its end, seed " + seed, Views.picture(run.beach), run.plain.picture());
         }
         for (int seed = 1; seed <= ODD_RUNS; seed++) {
             check.same("odd arguments, seed " + seed, new RandomRunsTest(1000 + seed, 3).firstDifference(LIFE), "none");

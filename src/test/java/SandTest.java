@@ -1,150 +1,238 @@
-/** Promises 1 to 7: a new object, pour, dig, and what would topple and be lost. */
+/** Promises 2 to 7: pour, dig, and what would topple and be lost. */
 final class SandTest {
-    interface Pouring {
+    private interface Trial {
         int answer(Sandpiper beach, int column, int row, int grains);
     }
 
-    static void run(Check check) {
-        newObject(check);
-        pour(check);
-        pourOnPlants(check);
-        pourBesideWalls(check);
-        dig(check);
-        trials(check);
-        wrongGrains(check, "pour", Sandpiper::pour);
-        wrongGrains(check, "dig", Sandpiper::dig);
-        wrongGrains(check, "topplesIf", Sandpiper::topplesIf);
-        wrongGrains(check, "topplesIfBySweeps", Sandpiper::topplesIfBySweeps);
-        wrongGrains(check, "lostIf", Sandpiper::lostIf);
-        wrongGrains(check, "lostIfBySweeps", Sandpiper::lostIfBySweeps);
+    private static final String NO_CELL = "Throws IndexOutOfBoundsException if there is no such cell";
+    private static final String FROM_1_TO_60 = "Throws IllegalArgumentException if the number is not between 1 and 60";
+
+    private final Document document;
+
+    private SandTest(Document document) {
+        this.document = document;
     }
 
-    private static void newObject(Check check) {
+    static void run(Document document) {
+        SandTest test = new SandTest(document);
+        test.promise2Pours();
+        test.promise2Settles();
+        test.promise2Returns();
+        test.promise2Throws();
+        test.promise3Digs();
+        test.promise3Returns();
+        test.promise3Throws();
+        test.promise3Fewer();
+        test.promise4();
+        test.promise5();
+        test.promise6();
+        test.promise7();
+    }
+
+    private void promise2Pours() {
+        Sentence sentence = document.promise(2, "Pours grains on a cell");
+        for (int cell = 0; cell < Beaches.CELLS; cell++) {
+            int column = Beaches.columnOf(cell);
+            int row = Beaches.rowOf(cell);
+            sentence.answers("3 at " + column + "," + row + " alone", b -> b.pour(column, row, 3),
+                    b -> b.height(column, row) + " " + b.sand() + " " + b.sea() + " " + b.brought(), "3 3 0 3");
+        }
+        sentence.answers("the least, 1", b -> b.pour(3, 2, 1), b -> b.height(3, 2) * 10 + b.brought(), 11);
+        sentence.answers("the most, 60", b -> b.pour(3, 2, 60), b -> b.sand() + b.sea() + " " + b.brought(), "60 60");
+        sentence.answers("on others", b -> b.pour(3, 2, 1), b -> b.pour(3, 2, 2) * 10 + b.height(3, 2), 3);
+        sentence.answers("on plants", b -> b.plant(3, 2), b -> b.pour(3, 2, 7) * 10 + b.height(3, 2), 7);
+        sentence.answers("on a full beach", Beaches.LEVEL, b -> { b.pour(0, 6, 60); return b.sand() + b.sea(); }, 186);
+        sentence.answers("on a beach full of plants", Beaches.PLANTED, b -> { b.pour(0, 6, 60); return b.sand() + b.sea(); }, 354);
+    }
+
+    private void promise2Settles() {
+        Sentence sentence = document.promise(2, "then the beach settles");
+        sentence.answers("3 stay", b -> b.pour(2, 3, 3), b -> b.height(2, 3) + " " + b.height(2, 2), "3 0");
+        sentence.answers("4 slide", b -> b.pour(2, 3, 4), b -> b.height(2, 3) + " " + b.height(2, 2), "0 1");
+        sentence.answers("planted, 7 stay", Beaches.planted(2, 3, 7), b -> b.height(2, 3) + " " + b.height(2, 2), "7 0");
+        sentence.answers("planted, 8 slide", Beaches.planted(2, 3, 8), b -> b.height(2, 3) + " " + b.height(2, 2), "4 1");
+        sentence.answers("planted, 11 slide once", Beaches.planted(2, 3, 11), b -> b.height(2, 3) + " " + b.height(2, 2), "7 1");
+        sentence.answers("planted, 12 slide twice", Beaches.planted(2, 3, 12), b -> b.height(2, 3) + " " + b.height(2, 2), "4 2");
+        sentence.answers("the cell beside slides too", b -> { b.pour(3, 3, 3); b.pour(2, 3, 4); },
+                b -> b.height(2, 3) + " " + b.height(3, 3) + " " + b.height(4, 3), "1 0 1");
+    }
+
+    private void promise2Returns() {
+        Sentence sentence = document.promise(2, "Returns how often cells topple");
+        sentence.answers("never", Beaches.EMPTY, b -> b.pour(2, 3, 3), 0);
+        sentence.answers("once", Beaches.EMPTY, b -> b.pour(2, 3, 4), 1);
+        sentence.answers("two cells", b -> b.pour(3, 3, 3), b -> b.pour(2, 3, 4), 2);
+        sentence.answers("one cell again and again", Beaches.EMPTY, b -> b.pour(2, 3, 20), 10);
+        sentence.answers("the most grains in a corner", Beaches.EMPTY, b -> b.pour(0, 6, 60), 253);
+        sentence.answers("this call alone", b -> b.pour(0, 6, 60), b -> b.pour(5, 0, 3), 0);
+        sentence.answers("a full beach", Beaches.LEVEL, b -> topplesLikePlain(b), true);
+        sentence.answers("the longest way to the sea", Beaches.SNAKE, b -> b.pour(0, 6, 60), 3990);
         Sandpiper beach = new Sandpiper();
-        StringBuilder due = new StringBuilder();
-        for (int column = 0; column < 6; column++) {
-            for (int row = 0; row < 7; row++) {
-                due.append("0b0 0").append(row == 6 ? "|0" : " 0");
-                due.append(column == 0 ? "|0" : " 0").append(column == 5 ? "|0" : " 0").append("; ");
+        int due = beach.pour(0, 6, 60) + beach.pour(5, 5, 60) + beach.pour(3, 0, 60);
+        int sum = 0;
+        for (int cell = 0; cell < Beaches.CELLS; cell++) {
+            sum += beach.topplings(Beaches.columnOf(cell), Beaches.rowOf(cell));
+        }
+        sentence.same("the sum of all topplings", sum, due);
+    }
+
+    /** One grain more on each cell of a level beach in turn, on this beach and on the plain one. */
+    private static boolean topplesLikePlain(Sandpiper beach) {
+        PlainBeach plain = new PlainBeach();
+        for (int cell = 0; cell < Beaches.CELLS; cell++) {
+            plain.pour(Beaches.columnOf(cell), Beaches.rowOf(cell), 3);
+        }
+        boolean same = true;
+        for (int cell = 0; cell < Beaches.CELLS; cell++) {
+            int column = Beaches.columnOf(cell);
+            int row = Beaches.rowOf(cell);
+            same &= beach.pour(column, row, 1) == plain.pour(column, row, 1);
+        }
+        return same;
+    }
+
+    private void promise2Throws() {
+        Arguments.cells(document.promise(2, NO_CELL), (b, column, row) -> b.pour(column, row, 1));
+        Arguments.numbers(document.promise(2, FROM_1_TO_60), 1, 60, (b, grains) -> b.pour(0, 0, grains));
+    }
+
+    private void promise3Digs() {
+        Sentence sentence = document.promise(3, "Digs grains out of a cell");
+        Beaches.Setup three = b -> b.pour(4, 5, 3);
+        sentence.answers("one of three", three, b -> { b.dig(4, 5, 1); return b.height(4, 5); }, 2);
+        sentence.answers("all of three", three, b -> { b.dig(4, 5, 3); return b.height(4, 5) + b.sand(); }, 0);
+        sentence.answers("none of other cells", Beaches.LEVEL, b -> { b.dig(4, 5, 3); return b.sand(); }, 123);
+        sentence.answers("not into the sea", b -> b.pour(4, 0, 3), b -> { b.dig(4, 0, 3); return b.sea() + " " + b.flow(4, 0, 's'); }, "0 0");
+        sentence.answers("all that a full beach has", Beaches.PLANTED, b -> {
+            for (int cell = 0; cell < Beaches.CELLS; cell++) {
+                b.dig(Beaches.columnOf(cell), Beaches.rowOf(cell), 7);
+            }
+            return b.sand() + " " + b.sea() + " " + b.brought();
+        }, "0 0 0");
+    }
+
+    private void promise3Returns() {
+        Sentence sentence = document.promise(3, "Returns the height of the cell");
+        for (int height = 1; height <= 7; height++) {
+            int grains = height;
+            for (int dug = 1; dug <= height; dug++) {
+                int taken = dug;
+                sentence.answers(dug + " of " + height, Beaches.planted(4, 5, grains), b -> b.dig(4, 5, taken), grains - taken);
             }
         }
-        check.same("1: a new beach", Check.picture(beach), due + "0 0 0");
-        check.same("1: a new storm", beach.clearStorm(), 0);
-        Sandpiper other = new Sandpiper();
-        other.pour(1, 1, 3);
-        check.same("1: beaches of their own", new Sandpiper().height(1, 1), 0);
+        sentence.answers("of bare ground", b -> b.pour(0, 0, 3), b -> b.dig(0, 0, 2), 1);
     }
 
-    private static void pour(Check check) {
-        Sandpiper beach = new Sandpiper();
-        check.same("2: below the limit", beach.pour(2, 3, 3), 0);
-        check.same("2: they stay", beach.height(2, 3), 3);
-        check.same("2: at the limit", beach.pour(2, 3, 1), 1);
-        check.same("2: toppled", beach.height(2, 3), 0);
-        check.same("2: to s", beach.height(2, 2), 1);
-        check.same("2: to l", beach.height(2, 4), 1);
-        check.same("2: to w", beach.height(1, 3), 1);
-        check.same("2: to e", beach.height(3, 3), 1);
-        check.same("2: the corner keeps two", beach.pour(0, 6, 4) * 10 + beach.height(0, 6), 12);
-        check.same("2: by the sea", beach.pour(5, 0, 4) * 10 + beach.height(5, 0), 11);
-        check.same("2: one into the sea", beach.sea(), 1);
-        check.answers("2: the most", Check.NOTHING, b -> b.pour(0, 6, 60), 253);
-        check.answers("2: a neighbour topples too", b -> b.pour(3, 3, 3), b -> b.pour(2, 3, 4), 2);
-        check.answers("2: many at once", Check.NOTHING, b -> b.pour(2, 3, 20), 10);
+    private void promise3Throws() {
+        Arguments.cells(document.promise(3, NO_CELL), (b, column, row) -> b.dig(column, row, 1));
+        Sentence sentence = document.promise(3, FROM_1_TO_60);
+        Arguments.numbers(sentence, 1, 60, (b, grains) -> b.dig(2, 1, grains));
+        sentence.refuses("0 of none", Beaches.EMPTY, b -> b.dig(0, 0, 0), Sentence.WRONG_ARGUMENT);
+        sentence.refuses("61 of none", Beaches.EMPTY, b -> b.dig(0, 0, 61), Sentence.WRONG_ARGUMENT);
     }
 
-    private static void pourOnPlants(Check check) {
-        Check.Setup planted = b -> b.plant(2, 3);
-        check.answers("2: planted, 7 stay", planted, b -> b.pour(2, 3, 7) * 10 + b.height(2, 3), 7);
-        check.answers("2: planted, 8 topple once", planted, b -> b.pour(2, 3, 8) * 10 + b.height(2, 3), 14);
-        check.answers("2: planted, 11 topple once", planted, b -> b.pour(2, 3, 11) * 10 + b.height(2, 3), 17);
-        check.answers("2: planted, 12 topple twice", planted, b -> b.pour(2, 3, 12) * 10 + b.height(2, 3), 24);
-    }
-
-    private static void pourBesideWalls(Check check) {
-        Check.Setup walls = b -> {
-            b.addWall(2, 3, 'l');
-            b.addWall(2, 3, 'e');
-            b.addWall(2, 3, 'w');
-        };
-        check.answers("2: one open side", walls, b -> b.pour(2, 3, 5) * 100 + b.height(2, 3) * 10 + b.height(2, 2), 232);
-        check.answers("2: none over a wall", walls, b -> b.pour(2, 3, 5) + b.height(2, 4) + b.height(1, 3) + b.height(3, 3), 2);
-        Check.Setup dam = b -> b.addWall(3, 0, 's');
-        check.answers("2: none over a dam", dam, b -> b.pour(3, 0, 4) * 100 + b.height(3, 0) * 10 + b.sea(), 110);
-    }
-
-    private static void dig(Check check) {
-        Check.Setup three = b -> b.pour(4, 5, 3);
-        check.answers("3: one of three", three, b -> b.dig(4, 5, 1), 2);
-        check.answers("3: all", three, b -> b.dig(4, 5, 3), 0);
-        check.answers("3: kept", three, b -> b.dig(4, 5, 2) * 10 + b.height(4, 5), 11);
-        check.answers("3: out of plants", b -> { b.plant(4, 5); b.pour(4, 5, 7); }, b -> b.dig(4, 5, 6), 1);
-        check.answers("3: taken away", three, b -> b.dig(4, 5, 2) + 10 * b.brought() + 100 * b.sand() + 1000 * b.sea(), 111);
-        check.refuses("3: fewer", three, b -> b.dig(4, 5, 4), "NoSuchElementException");
-        check.refuses("3: none", Check.NOTHING, b -> b.dig(4, 5, 1), "NoSuchElementException");
-        check.refuses("3: 60 of three", three, b -> b.dig(4, 5, 60), "NoSuchElementException");
-        check.refuses("3: the number before the few", three, b -> b.dig(4, 5, 61), "IllegalArgumentException");
-    }
-
-    private static void trials(Check check) {
-        Check.Setup ready = b -> {
-            b.plant(1, 1);
-            b.addWall(4, 0, 's');
-            b.addWall(2, 4, 'e');
-            b.pour(0, 6, 60);
-            b.pour(4, 1, 50);
-        };
-        for (int column = 0; column < 6; column++) {
-            for (int row = 0; row < 7; row++) {
-                trial(check, ready, column, row, 1);
-                trial(check, ready, column, row, 7 + row);
-                trial(check, ready, column, row, 60);
+    private void promise3Fewer() {
+        Sentence sentence = document.promise(3, "Throws NoSuchElementException if it has fewer grains");
+        for (int height = 0; height <= 7; height++) {
+            Beaches.Setup setup = Beaches.planted(4, 5, height);
+            for (int grains : new int[] {height + 1, height + 2, 60}) {
+                sentence.refuses(grains + " of " + height, setup, b -> b.dig(4, 5, grains), Sentence.NONE_THERE);
             }
+            int all = height;
+            sentence.answers(height + " of " + height, setup, b -> all == 0 ? 0 : b.dig(4, 5, all), 0);
         }
-        check.answers("4: one topples", b -> b.pour(0, 0, 3), b -> b.topplesIf(0, 0, 1), 1);
-        check.answers("5: one topples", b -> b.pour(0, 0, 3), b -> b.topplesIfBySweeps(0, 0, 1), 1);
-        check.answers("6: one is lost", b -> b.pour(0, 0, 3), b -> b.lostIf(0, 0, 1), 1);
-        check.answers("7: one is lost", b -> b.pour(0, 0, 3), b -> b.lostIfBySweeps(0, 0, 1), 1);
-        check.answers("4: none topples", Check.NOTHING, b -> b.topplesIf(0, 0, 3), 0);
-        check.answers("5: none topples", Check.NOTHING, b -> b.topplesIfBySweeps(0, 0, 3), 0);
-        check.answers("6: none is lost", Check.NOTHING, b -> b.lostIf(3, 3, 20), 0);
-        check.answers("7: none is lost", Check.NOTHING, b -> b.lostIfBySweeps(3, 3, 20), 0);
+        for (int cell = 0; cell < Beaches.CELLS; cell++) {
+            int column = Beaches.columnOf(cell);
+            int row = Beaches.rowOf(cell);
+            sentence.answers("none at " + column + "," + row, Beaches.EMPTY, b -> b.dig(column, row, 1), "throws.NoSuchElementException");
+        }
+        sentence.refuses("when all is dug out", b -> { b.pour(4, 5, 3); b.dig(4, 5, 3); }, b -> b.dig(4, 5, 1), Sentence.NONE_THERE);
+        sentence.refuses("when others have more", Beaches.all(Beaches.PLANTED, b -> b.dig(4, 5, 6)), b -> b.dig(4, 5, 2), Sentence.NONE_THERE);
     }
 
-    private static void trial(Check check, Check.Setup setup, int column, int row, int grains) {
-        Sandpiper beach = new Sandpiper();
-        setup.prepare(beach);
-        int before = beach.sea();
-        int topples = beach.topplesIf(column, row, grains);
-        int topplesBySweeps = beach.topplesIfBySweeps(column, row, grains);
-        int lost = beach.lostIf(column, row, grains);
-        int lostBySweeps = beach.lostIfBySweeps(column, row, grains);
-        Sandpiper untouched = new Sandpiper();
-        setup.prepare(untouched);
-        String where = " at " + column + "," + row + " with " + grains;
-        check.same("4 to 7: nothing changes" + where, Check.picture(beach), Check.picture(untouched));
-        Sandpiper poured = new Sandpiper();
-        setup.prepare(poured);
-        int due = poured.pour(column, row, grains);
-        check.same("4" + where, topples, due);
-        check.same("5" + where, topplesBySweeps, due);
-        check.same("6" + where, lost, poured.sea() - before);
-        check.same("7" + where, lostBySweeps, poured.sea() - before);
+    private void promise4() {
+        document.promise(4, "Returns how often cells would topple").same("none", new Sandpiper().topplesIf(0, 0, 3), 0);
+        Sentence sentence = document.promise(4, "Returns how often cells would topple if grains were poured on a cell, found with a "
+                + "queue of cells");
+        topples(sentence, Sandpiper::topplesIf);
+        Arguments.cells(document.promise(4, NO_CELL), (b, column, row) -> b.topplesIf(column, row, 1));
+        Arguments.numbers(document.promise(4, FROM_1_TO_60), 1, 60, (b, grains) -> b.topplesIf(0, 0, grains));
     }
 
-    private static void wrongGrains(Check check, String name, Pouring call) {
-        Check.Setup sandy = b -> b.pour(0, 0, 2);
-        int[][] cells = {{-1, 0}, {6, 0}, {0, -1}, {0, 7}, {6, 7}, {Integer.MIN_VALUE, 0}, {0, Integer.MAX_VALUE}};
-        for (int[] cell : cells) {
-            String what = name + " at " + cell[0] + "," + cell[1];
-            check.refuses(what, sandy, b -> call.answer(b, cell[0], cell[1], 1), "IndexOutOfBoundsException");
-            check.refuses(what + ", wrong number", sandy, b -> call.answer(b, cell[0], cell[1], 0), "IndexOutOfBoundsException");
+    private void promise5() {
+        document.promise(5, "Returns how often cells would topple").same("none", new Sandpiper().topplesIfBySweeps(0, 0, 3), 0);
+        Sentence sentence = document.promise(5, "Returns the same number, found by sweeps from the land to the sea");
+        topples(sentence, Sandpiper::topplesIfBySweeps);
+        Arguments.cells(document.promise(5, NO_CELL), (b, column, row) -> b.topplesIfBySweeps(column, row, 1));
+        Arguments.numbers(document.promise(5, FROM_1_TO_60), 1, 60, (b, grains) -> b.topplesIfBySweeps(0, 0, grains));
+    }
+
+    private void promise6() {
+        document.promise(6, "Returns the number of grains").same("none", new Sandpiper().lostIf(0, 0, 3), 0);
+        Sentence sentence = document.promise(6, "Returns how many grains would go into the sea if grains were poured on a cell, found "
+                + "with a queue of cells");
+        lost(sentence, Sandpiper::lostIf);
+        Arguments.cells(document.promise(6, NO_CELL), (b, column, row) -> b.lostIf(column, row, 1));
+        Arguments.numbers(document.promise(6, FROM_1_TO_60), 1, 60, (b, grains) -> b.lostIf(0, 0, grains));
+    }
+
+    private void promise7() {
+        document.promise(7, "Returns the number of grains").same("none", new Sandpiper().lostIfBySweeps(0, 0, 3), 0);
+        Sentence sentence = document.promise(7, "Returns the same number, found by sweeps from the land to the sea");
+        lost(sentence, Sandpiper::lostIfBySweeps);
+        Arguments.cells(document.promise(7, NO_CELL), (b, column, row) -> b.lostIfBySweeps(column, row, 1));
+        Arguments.numbers(document.promise(7, FROM_1_TO_60), 1, 60, (b, grains) -> b.lostIfBySweeps(0, 0, grains));
+    }
+
+    private static void topples(Sentence sentence, Trial trial) {
+        sentence.answers("1 grain on an empty beach", Beaches.EMPTY, b -> trial.answer(b, 0, 0, 1), 0);
+        sentence.answers("3 grains on an empty beach", Beaches.EMPTY, b -> trial.answer(b, 0, 0, 3), 0);
+        sentence.answers("4 grains on an empty beach", Beaches.EMPTY, b -> trial.answer(b, 0, 0, 4), 1);
+        sentence.answers("1 grain on 3", b -> b.pour(0, 0, 3), b -> trial.answer(b, 0, 0, 1), 1);
+        sentence.answers("7 grains on plants", b -> b.plant(3, 3), b -> trial.answer(b, 3, 3, 7), 0);
+        sentence.answers("8 grains on plants", b -> b.plant(3, 3), b -> trial.answer(b, 3, 3, 8), 1);
+        sentence.answers("20 grains", Beaches.EMPTY, b -> trial.answer(b, 2, 3, 20), 10);
+        sentence.answers("60 grains in a corner", Beaches.EMPTY, b -> trial.answer(b, 0, 6, 60), 253);
+        sentence.answers("60 grains and the longest way", Beaches.SNAKE, b -> trial.answer(b, 0, 6, 60), 3990);
+        sentence.answers("the second time", Beaches.SNAKE, b -> trial.answer(b, 0, 6, 60) - trial.answer(b, 0, 6, 60), 0);
+        trials(sentence, trial, (beach, column, row, grains) -> beach.pour(column, row, grains));
+    }
+
+    private static void lost(Sentence sentence, Trial trial) {
+        sentence.answers("3 grains by the sea", Beaches.EMPTY, b -> trial.answer(b, 0, 0, 3), 0);
+        sentence.answers("4 grains by the sea", Beaches.EMPTY, b -> trial.answer(b, 0, 0, 4), 1);
+        sentence.answers("1 grain on 3 by the sea", b -> b.pour(0, 0, 3), b -> trial.answer(b, 0, 0, 1), 1);
+        sentence.answers("7 grains on plants by the sea", b -> b.plant(3, 0), b -> trial.answer(b, 3, 0, 7), 0);
+        sentence.answers("8 grains on plants by the sea", b -> b.plant(3, 0), b -> trial.answer(b, 3, 0, 8), 1);
+        sentence.answers("4 grains in the row 1", Beaches.EMPTY, b -> trial.answer(b, 0, 1, 4), 0);
+        sentence.answers("60 grains far from the sea", Beaches.EMPTY, b -> trial.answer(b, 3, 3, 60), 0);
+        sentence.answers("60 grains by the sea", Beaches.EMPTY, b -> trial.answer(b, 3, 0, 60), 30);
+        sentence.answers("behind a dam", b -> b.addWall(3, 0, 's'), b -> trial.answer(b, 3, 0, 4), 0);
+        sentence.answers("not what was lost before", b -> b.pour(3, 0, 60), b -> trial.answer(b, 5, 6, 3), 0);
+        sentence.answers("the second time", b -> b.pour(3, 0, 60), b -> trial.answer(b, 2, 0, 60) - trial.answer(b, 2, 0, 60), 0);
+        trials(sentence, trial, (beach, column, row, grains) -> {
+            int before = beach.sea();
+            beach.pour(column, row, grains);
+            return beach.sea() - before;
+        });
+    }
+
+    /** What would be is what is, once the grains are poured; and until then nothing changes. */
+    private static void trials(Sentence sentence, Trial trial, Trial deed) {
+        Beaches.Setup[] setups = {Beaches.EMPTY, Beaches.BUSY, Beaches.LEVEL, Beaches.PLANTED, Beaches.SNAKE, Beaches.DAMS};
+        for (int i = 0; i < setups.length; i++) {
+            Beaches.Setup setup = setups[i];
+            for (int grains : new int[] {1, 4, 8, 59, 60}) {
+                for (int cell = 0; cell < Beaches.CELLS; cell += grains == 1 ? 1 : 3) {
+                    int column = Beaches.columnOf(cell);
+                    int row = Beaches.rowOf(cell);
+                    int due = deed.answer(Beaches.ready(setup), column, row, grains);
+                    sentence.answers("as poured, beach " + i + " at " + column + "," + row + " with " + grains, setup,
+                            b -> trial.answer(b, column, row, grains), due);
+                }
+            }
+            sentence.changesNothing("60 grains, beach " + i, setup, b -> trial.answer(b, 3, 0, 60));
+            sentence.changesNothing("1 grain, beach " + i, setup, b -> trial.answer(b, 0, 6, 1));
         }
-        for (int grains : new int[] {0, 61, -1, Integer.MIN_VALUE, Integer.MAX_VALUE}) {
-            check.refuses(name + " of " + grains, sandy, b -> call.answer(b, 0, 0, grains), "IllegalArgumentException");
-        }
-        // The last cell and the least number are good; dig has nothing there to take.
-        Object due = name.equals("dig") ? "throws.NoSuchElementException" : 0;
-        check.answers(name + " at 5,6", sandy, b -> call.answer(b, 5, 6, 1), due);
     }
 }

@@ -1,113 +1,154 @@
-/** Promises 25 to 31: flooded, floodedByRounds, isFlooded, sand, sea, brought, meanHeight. */
+/** The term "Water" and promises 25 to 27: flooded, floodedByRounds, isFlooded. */
 final class WaterTest {
-    static void run(Check check) {
-        flooded(check);
-        isFlooded(check);
-        wrongLevels(check);
-        sums(check);
-        meanHeight(check);
-    }
+    private static final String LEVEL = "Throws IllegalArgumentException if the level is not between 0 and 20";
 
-    private static void both(Check check, String what, Check.Setup setup, int level, int due) {
-        check.answers("25: " + what, setup, b -> b.flooded(level), due);
-        check.answers("26: " + what, setup, b -> b.floodedByRounds(level), due);
-    }
-
-    private static void flooded(Check check) {
-        both(check, "level 0", Check.NOTHING, 0, 0);
-        both(check, "level 1 on bare ground", Check.NOTHING, 1, 42);
-        both(check, "the highest level", WavesTest.heights(2, "7777777"), 20, 42);
-        both(check, "at the height", WavesTest.heights(2, "3"), 3, 41);
-        both(check, "above the height", WavesTest.heights(2, "3"), 4, 42);
-        Check.Setup ridge = b -> {
-            for (int column = 0; column < 6; column++) {
-                b.pour(column, 2, 2);
-            }
-        };
-        both(check, "ahead of a ridge", ridge, 2, 12);
-        both(check, "over a ridge", ridge, 3, 42);
-        both(check, "through a gap", b -> { ridge.prepare(b); b.dig(5, 2, 1); }, 2, 37);
-        Check.Setup dams = b -> {
-            for (int column = 0; column < 5; column++) {
-                b.addWall(column, 0, 's');
-            }
-        };
-        both(check, "round the dams", dams, 1, 42);
-        both(check, "behind the dams", b -> { dams.prepare(b); b.pour(5, 0, 1); }, 1, 0);
-        // A way that goes to the land and back: it takes many rounds.
-        Check.Setup maze = b -> {
-            dams.prepare(b);
-            for (int row = 0; row < 6; row++) {
-                b.addWall(4, row, 'e');
-            }
-            for (int row = 1; row < 7; row++) {
-                b.addWall(3, row, 'e');
-            }
-        };
-        both(check, "round the walls", maze, 1, 42);
-        both(check, "round the walls, up to a hill", b -> { maze.prepare(b); b.pour(4, 2, 1); }, 1, 11);
-        both(check, "round the walls, a lake", b -> { maze.prepare(b); b.pour(4, 0, 1); }, 1, 13);
-        both(check, "no way over corners", b -> { b.pour(1, 0, 1); b.addWall(0, 0, 's'); b.pour(0, 1, 1); }, 1, 39);
-        check.answers("25: nothing changes", ridge, b -> { b.flooded(3); b.floodedByRounds(3); return Check.picture(b); }, picture(ridge));
-    }
-
-    private static String picture(Check.Setup setup) {
-        Sandpiper beach = new Sandpiper();
-        setup.prepare(beach);
-        return Check.picture(beach);
-    }
-
-    private static void isFlooded(Check check) {
-        Check.Setup lake = b -> { b.pour(1, 0, 1); b.addWall(0, 0, 's'); b.pour(0, 1, 1); };
-        check.answers("27: a lake without a way", lake, b -> b.isFlooded(0, 0, 1), false);
-        check.answers("27: the way is under water", lake, b -> b.isFlooded(0, 0, 2), true);
-        check.answers("27: the water", lake, b -> b.isFlooded(5, 6, 1), true);
-        check.answers("27: the hill", lake, b -> b.isFlooded(1, 0, 1), false);
-        check.answers("27: level 0", lake, b -> b.isFlooded(5, 6, 0), false);
-        check.answers("27: level 20", lake, b -> b.isFlooded(5, 6, 20), true);
-        check.answers("27: after another level", lake, b -> b.flooded(20) * 10 + (b.isFlooded(0, 0, 1) ? 1 : 0), 420);
-    }
-
-    private static void wrongLevels(Check check) {
-        Check.Setup sandy = b -> b.pour(0, 0, 3);
-        for (int level : new int[] {-1, 21, Integer.MIN_VALUE, Integer.MAX_VALUE}) {
-            check.refuses("25: level " + level, sandy, b -> b.flooded(level), "IllegalArgumentException");
-            check.refuses("26: level " + level, sandy, b -> b.floodedByRounds(level), "IllegalArgumentException");
-            check.refuses("27: level " + level, sandy, b -> b.isFlooded(0, 0, level), "IllegalArgumentException");
-            check.refuses("27: the cell before level " + level, sandy, b -> b.isFlooded(6, 0, level), "IndexOutOfBoundsException");
+    /** One way into the columns 0 to 4, round two walls: it goes to the land, back to the sea, and to the land again. */
+    private static final Beaches.Setup MAZE = Beaches.all(Beaches.DAMS, b -> {
+        for (int row = 0; row < 6; row++) {
+            b.addWall(4, row, 'e');
+            b.addWall(3, row + 1, 'e');
         }
-        PlantsAndWallsTest.wrongCells(check, "isFlooded", (b, c, r) -> b.isFlooded(c, r, 5));
+    });
+
+    /** A dam, and two grains that cut the corner off. */
+    private static final Beaches.Setup LAKE = b -> {
+        b.pour(1, 0, 1);
+        b.addWall(0, 0, 's');
+        b.pour(0, 1, 1);
+    };
+
+    private static final Beaches.Setup RIDGE = b -> {
+        for (int column = 0; column < Beaches.COLUMNS; column++) {
+            b.pour(column, 2, 2);
+        }
+    };
+
+    private final Document document;
+
+    private WaterTest(Document document) {
+        this.document = document;
     }
 
-    private static void sums(Check check) {
-        Sandpiper beach = new Sandpiper();
-        check.same("28 to 30: at first", beach.sand() + " " + beach.sea() + " " + beach.brought(), "0 0 0");
-        beach.pour(2, 0, 5);
-        check.same("28 to 30: poured", beach.sand() + " " + beach.sea() + " " + beach.brought(), "4 1 5");
-        beach.dig(2, 1, 1);
-        check.same("28 to 30: dug", beach.sand() + " " + beach.sea() + " " + beach.brought(), "3 1 4");
-        beach.wave(1, 60);
-        check.same("28 to 30: a wave", beach.sand() + " " + beach.sea() + " " + beach.brought(), "2 2 4");
-        beach.wind(1);
-        check.same("28 to 30: wind", beach.sand() + " " + beach.sea() + " " + beach.brought(), "2 2 4");
-        beach.lostIf(0, 0, 60);
-        check.same("28 to 30: a trial", beach.sand() + " " + beach.sea() + " " + beach.brought(), "2 2 4");
-        beach.plant(4, 0);
-        beach.pour(4, 0, 7);
-        beach.uproot(4, 0);
-        check.same("28 to 30: uprooted", beach.sand() + " " + beach.sea() + " " + beach.brought(), "8 3 11");
+    static void run(Document document) {
+        WaterTest test = new WaterTest(document);
+        test.lessThanTheLevel();
+        test.comesFromTheSea();
+        test.promise25and26();
+        test.promise27();
+        test.wrongLevels();
     }
 
-    private static void meanHeight(Check check) {
-        check.answers("31: at first", Check.NOTHING, b -> b.meanHeight(), 0.0f);
-        check.answers("31: one grain", b -> b.pour(0, 0, 1), b -> b.meanHeight(), 1f / 42f);
-        check.answers("31: 25 grains", b -> b.pour(2, 3, 25), b -> b.meanHeight(), 25f / 42f);
-        check.answers("31: not what is in the sea", b -> b.pour(2, 0, 4), b -> b.meanHeight(), 3f / 42f);
-        check.answers("31: in float", b -> b.pour(2, 3, 25), b -> (double) b.meanHeight(), 0.5952380895614624);
-        check.answers("31: one on each", b -> {
-            for (int cell = 0; cell < 42; cell++) {
-                b.pour(cell % 6, cell / 6, 1);
+    /** All three calls that tell of water agree on the number of cells. */
+    private static Sentence.Call water(int level) {
+        return b -> {
+            int cells = 0;
+            for (int cell = 0; cell < Beaches.CELLS; cell++) {
+                cells += b.isFlooded(Beaches.columnOf(cell), Beaches.rowOf(cell), level) ? 1 : 0;
             }
-        }, b -> b.meanHeight(), 1.0f);
+            return b.flooded(level) + " " + b.floodedByRounds(level) + " " + cells;
+        };
+    }
+
+    private static String all(int cells) {
+        return cells + " " + cells + " " + cells;
+    }
+
+    private void lessThanTheLevel() {
+        Sentence sentence = document.term("Water", "At a level, water stands in each cell whose height is less than the level");
+        for (int height = 0; height <= 7; height++) {
+            sentence.answers("height " + height + ", the level below", Beaches.planted(2, 3, height), water(Math.max(height - 1, 0)), all(height < 2 ? 0 : 41));
+            sentence.answers("height " + height + ", the same level", Beaches.planted(2, 3, height), water(height), all(height == 0 ? 0 : 41));
+            sentence.answers("height " + height + ", the level above", Beaches.planted(2, 3, height), water(height + 1), all(42));
+        }
+        sentence.answers("level 0, nothing is less", Beaches.EMPTY, water(0), all(0));
+        sentence.answers("level 1 on an empty beach", Beaches.EMPTY, water(1), all(42));
+        sentence.answers("level 7 on a full beach", Beaches.PLANTED, water(7), all(0));
+        sentence.answers("level 8 on a full beach", Beaches.PLANTED, water(8), all(42));
+        sentence.answers("level 20 on a full beach", Beaches.PLANTED, water(20), all(42));
+        sentence.answers("plants do not matter", b -> { b.plant(2, 0); b.plant(2, 1); }, water(1), all(42));
+    }
+
+    private void comesFromTheSea() {
+        Sentence sentence = document.term("Water", "and to which it can come from the sea over open sides and such cells alone");
+        sentence.answers("ahead of a ridge", RIDGE, water(2), all(12));
+        sentence.answers("over a ridge", RIDGE, water(3), all(42));
+        sentence.answers("through a gap", Beaches.all(RIDGE, b -> b.dig(5, 2, 1)), water(2), all(37));
+        sentence.answers("not through a gap with a wall on it", Beaches.all(RIDGE, b -> b.dig(5, 2, 1), b -> b.addWall(5, 2, 's')), water(2), all(12));
+        sentence.answers("into a gap with a wall behind it", Beaches.all(RIDGE, b -> b.dig(5, 2, 1), b -> b.addWall(5, 2, 'l')), water(2), all(13));
+        sentence.answers("a ridge by the sea", b -> {
+            for (int column = 0; column < Beaches.COLUMNS; column++) {
+                b.pour(column, 0, 1);
+            }
+        }, water(1), all(0));
+        sentence.answers("round the dams", Beaches.DAMS, water(1), all(42));
+        sentence.answers("not round the dams over a hill", Beaches.all(Beaches.DAMS, b -> b.pour(5, 0, 1)), water(1), all(0));
+        sentence.answers("each way alone, comb", Beaches.all(Beaches.COMB, b -> b.pour(3, 2, 1)), water(1), all(37));
+        sentence.answers("the longest way", Beaches.SNAKE, water(1), all(42));
+        sentence.answers("the longest way but for its end", Beaches.all(Beaches.SNAKE, b -> b.pour(0, 6, 1)), water(1), all(41));
+        sentence.answers("the longest way, cut at its beginning", Beaches.all(Beaches.SNAKE, b -> b.pour(5, 0, 1)), water(1), all(0));
+        sentence.answers("the longest way, cut in the middle", Beaches.all(Beaches.SNAKE, b -> b.pour(3, 3, 1)), water(1), all(17));
+        sentence.answers("round the walls", MAZE, water(1), all(42));
+        sentence.answers("round the walls, up to a hill", Beaches.all(MAZE, b -> b.pour(4, 2, 1)), water(1), all(11));
+        sentence.answers("round the walls, not behind a hill", Beaches.all(MAZE, b -> b.pour(4, 0, 1)), water(1), all(13));
+        sentence.answers("not over corners", LAKE, water(1), all(39));
+        sentence.answers("over sand that is lower than the level", LAKE, water(2), all(42));
+        sentence.answers("not into a hole", b -> { b.pour(1, 6, 1); b.pour(0, 5, 1); }, water(1), all(39));
+        sentence.answers("a wall away", Beaches.all(LAKE, b -> b.removeWall(0, 0, 's')), water(1), all(40));
+    }
+
+    private void promise25and26() {
+        Sentence going = document.promise(25, "Returns the number of cells in which water stands at a level, found by going from cell to cell");
+        Sentence number = document.promise(25, "Returns the number of cells");
+        Sentence rounds = document.promise(26, "Returns the same number, found by rounds over all cells");
+        Sentence again = document.promise(26, "Returns the number of cells");
+        Beaches.Setup[] setups = {Beaches.EMPTY, Beaches.BUSY, Beaches.LEVEL, Beaches.PLANTED, Beaches.SNAKE, MAZE, LAKE, RIDGE};
+        int[][] due = {{0, 42, 42, 42, 42, 42}, null, {0, 0, 0, 0, 42, 42}, {0, 0, 0, 0, 0, 0}, {0, 42, 42, 42, 42, 42},
+            {0, 42, 42, 42, 42, 42}, {0, 39, 42, 42, 42, 42}, {0, 12, 12, 42, 42, 42}};
+        for (int i = 0; i < setups.length; i++) {
+            Sandpiper beach = Beaches.ready(setups[i]);
+            for (int level = 0; level <= 20; level++) {
+                int cells = beach.flooded(level);
+                rounds.same("beach " + i + ", level " + level, beach.floodedByRounds(level), cells);
+                if (due[i] != null && level < due[i].length) {
+                    going.same("beach " + i + ", level " + level, cells, due[i][level]);
+                    again.same("beach " + i + ", level " + level, beach.floodedByRounds(level), due[i][level]);
+                }
+            }
+            number.same("all at the highest level, beach " + i, beach.flooded(20), 42);
+            again.same("all at the highest level, beach " + i, beach.floodedByRounds(20), 42);
+            number.same("none at the lowest level, beach " + i, beach.flooded(0), 0);
+            again.same("none at the lowest level, beach " + i, beach.floodedByRounds(0), 0);
+        }
+        going.changesNothing("asked", Beaches.BUSY, b -> b.flooded(3));
+        rounds.changesNothing("asked", Beaches.BUSY, b -> b.floodedByRounds(3));
+    }
+
+    private void promise27() {
+        Arguments.cells(document.promise(27, "Throws IndexOutOfBoundsException if there is no such cell"), (b, c, r) -> b.isFlooded(c, r, 5));
+        document.promise(27, "Returns true if it does").answers("the most", Beaches.PLANTED, b -> b.isFlooded(0, 6, 20), true);
+        Sentence sentence = document.promise(27, "Tells whether water stands in a cell at a level");
+        sentence.answers("a lake without a way", LAKE, b -> b.isFlooded(0, 0, 1), false);
+        sentence.answers("its shore under water", LAKE, b -> b.isFlooded(0, 0, 2), true);
+        sentence.answers("the water", LAKE, b -> b.isFlooded(5, 6, 1), true);
+        sentence.answers("a hill", LAKE, b -> b.isFlooded(1, 0, 1), false);
+        sentence.answers("level 0", LAKE, b -> b.isFlooded(5, 6, 0), false);
+        sentence.answers("level 20", LAKE, b -> b.isFlooded(5, 6, 20), true);
+        sentence.answers("after other levels", LAKE, b -> b.flooded(20) + " " + b.isFlooded(0, 0, 1) + " " + b.floodedByRounds(20) + " "
+                + b.isFlooded(0, 0, 1) + " " + b.isFlooded(0, 0, 2), "42 false 42 false true");
+        for (int cell = 0; cell < Beaches.CELLS; cell++) {
+            int column = Beaches.columnOf(cell);
+            int row = Beaches.rowOf(cell);
+            String where = " at " + column + "," + row;
+            sentence.answers("on an empty beach" + where, Beaches.EMPTY, b -> b.isFlooded(column, row, 0) + " " + b.isFlooded(column, row, 1), "false true");
+            sentence.answers("on a full beach" + where, Beaches.PLANTED, b -> b.isFlooded(column, row, 7) + " " + b.isFlooded(column, row, 8), "false true");
+            sentence.answers("ahead of the ridge" + where, RIDGE, b -> b.isFlooded(column, row, 2), row < 2);
+        }
+        sentence.changesNothing("asked", Beaches.BUSY, b -> b.isFlooded(2, 2, 3));
+    }
+
+    private void wrongLevels() {
+        Arguments.numbers(document.promise(25, LEVEL), 0, 20, (b, level) -> b.flooded(level));
+        Arguments.numbers(document.promise(26, LEVEL), 0, 20, (b, level) -> b.floodedByRounds(level));
+        Arguments.numbers(document.promise(27, LEVEL), 0, 20, (b, level) -> b.isFlooded(0, 0, level));
     }
 }

@@ -1,186 +1,265 @@
-/** Promises 14 to 18: wave, wind, addStep, clearStorm, storm. */
+/** The term "Waves" and promise 14. */
 final class WavesTest {
-    private static final int[] WRONG_ENERGIES = {0, 61, -1, Integer.MIN_VALUE, Integer.MAX_VALUE};
-    private static final int[] WRONG_COLUMNS = {-1, 6, 42, Integer.MIN_VALUE, Integer.MAX_VALUE};
+    private final Document document;
 
-    static void run(Check check) {
-        energy(check);
-        stopped(check);
-        thrownBack(check);
-        planted(check);
-        settled(check);
-        wind(check);
-        addStep(check);
-        clearStorm(check);
-        storm(check);
-        wrong(check);
+    private WavesTest(Document document) {
+        this.document = document;
     }
 
-    /** The heights of a column from the sea to the land, as digits. */
-    static String column(Sandpiper beach, int column) {
-        StringBuilder text = new StringBuilder();
-        for (int row = 0; row < 7; row++) {
-            text.append(beach.height(column, row));
-        }
-        return text.toString();
+    static void run(Document document) {
+        WavesTest test = new WavesTest(document);
+        test.loadAtFirst();
+        test.fromRow0On();
+        test.thrownBack();
+        test.stops();
+        test.enters();
+        test.energyDecreases();
+        test.becomesLoad();
+        test.lastRow();
+        test.lastOneFirst();
+        test.takesOneMore();
+        test.drops();
+        test.restIntoTheSea();
+        test.settles();
+        test.promise14Comes();
+        test.promise14Returns();
+        test.promise14Throws();
     }
 
-    static Check.Setup heights(int column, String heights) {
-        return b -> {
-            for (int row = 0; row < heights.length(); row++) {
-                int grains = heights.charAt(row) - '0';
-                if (grains > 3) {
-                    b.plant(column, row);
+    /** How many cells the wave enters, the heights of its column afterwards, and what is in the sea. */
+    private static Sentence.Call wave(int column, int energy) {
+        return b -> b.wave(column, energy) + " " + Beaches.heights(b, column) + " " + b.sea();
+    }
+
+    private void loadAtFirst() {
+        Sentence sentence = document.term("Waves", "A wave has a column and an energy, and a load, at first 0");
+        sentence.answers("nothing to drop", Beaches.EMPTY, wave(3, 6), "6 0000000 0");
+        sentence.answers("not the load of the wave before that was thrown back", Beaches.all(Beaches.column(2, "3"), b -> b.wave(2, 60)),
+                wave(3, 6), "6 0000000 2");
+        sentence.answers("not the load of the wave before that stopped", Beaches.all(Beaches.column(2, "3"), b -> b.wave(2, 4)),
+                wave(3, 6), "6 0000000 0");
+        for (int column = 0; column < Beaches.COLUMNS; column++) {
+            int its = column;
+            sentence.answers("its column alone, " + column, Beaches.LEVEL, b -> {
+                b.wave(its, 60);
+                StringBuilder text = new StringBuilder();
+                for (int other = 0; other < Beaches.COLUMNS; other++) {
+                    text.append(Beaches.heights(b, other).equals(other == its ? "1111111" : "3333333") ? "" : " " + other);
                 }
-                if (grains > 0) {
-                    b.pour(column, row, grains);
-                }
-            }
-        };
-    }
-
-    private static Check.Call wave(int column, int energy) {
-        return b -> b.wave(column, energy) + " " + column(b, column) + " " + b.sea();
-    }
-
-    private static void energy(Check check) {
-        for (int energy = 1; energy <= 8; energy++) {
-            check.answers("14: on bare ground with " + energy, Check.NOTHING, wave(3, energy), Math.min(energy, 7) + " 0000000 0");
+                return text.toString();
+            }, "");
         }
-        check.answers("14: the most energy", Check.NOTHING, wave(0, 60), "7 0000000 0");
-        check.answers("14: not greater than the height", heights(2, "3"), wave(2, 3), "0 3000000 0");
-        check.answers("14: just greater", heights(2, "3"), wave(2, 4), "4 2001000 0");
-        check.answers("14: the energy decreases", heights(2, "0033"), wave(2, 5), "2 0033000 0");
-        check.answers("14: a planted cell costs more", heights(2, "4"), wave(2, 5), "3 4000000 0");
-        check.answers("14: by a quarter", heights(2, "7"), wave(2, 9), "7 7000000 0");
-        check.answers("14: seven is one quarter", heights(2, "7"), wave(2, 8), "6 7000000 0");
-        check.answers("14: a bare planted cell", b -> b.plant(2, 0), wave(2, 1), "1 0000000 0");
-        check.answers("14: energy below 0 stops", b -> { b.plant(2, 0); b.plant(2, 1); }, wave(2, 3), "2 0000000 0");
     }
 
-    private static void stopped(Check check) {
-        check.answers("14: takes and drops", heights(2, "2220000"), wave(2, 5), "5 1121100 0");
-        check.answers("14: the last one first", heights(2, "1000000"), wave(2, 4), "4 0001000 0");
-        check.answers("14: drops as long as it has load", heights(2, "1110000"), wave(2, 5), "5 0011100 0");
-        check.answers("14: stops at the second", heights(2, "2030000"), wave(2, 4), "2 1130000 0");
-        check.answers("14: dropped where it was taken", heights(2, "3330000"), wave(2, 4), "1 3330000 0");
+    private void fromRow0On() {
+        Sentence sentence = document.term("Waves", "It comes from the sea and enters the cells of the column one after the other, "
+                + "from the row 0 on");
+        for (int row = 0; row < Beaches.ROWS; row++) {
+            String grain = "0".repeat(row) + "3" + "0".repeat(6 - row);
+            String taken = "0".repeat(row) + "1" + "0".repeat(6 - row);
+            int behind = row;
+            sentence.answers("it reaches the row " + row, Beaches.column(4, grain), wave(4, 60), "7 " + taken + " 2");
+            sentence.answers("it does not reach the row " + row, Beaches.all(Beaches.column(4, grain), b -> b.addWall(4, behind, 's')),
+                    wave(4, 60), row + " " + grain + " 0");
+        }
+        sentence.answers("the hill by the sea first", Beaches.column(4, "3000000"), wave(4, 3), "0 3000000 0");
+        sentence.answers("the hill in the land last", Beaches.column(4, "0000003"), wave(4, 3), "3 0000003 0");
     }
 
-    private static void thrownBack(Check check) {
-        check.answers("14: off the edge in the land", heights(2, "2121000"), wave(2, 60), "7 0000000 6");
-        check.answers("14: a grain in the last row", heights(2, "0000003"), wave(2, 60), "7 0000001 2");
-        Check.Setup wall = b -> { heights(2, "3213000").prepare(b); b.addWall(2, 2, 'l'); };
-        check.answers("14: off a wall", wall, wave(2, 60), "3 1003000 5");
-        Check.Setup dam = b -> { heights(2, "3213000").prepare(b); b.addWall(2, 0, 's'); };
-        check.answers("14: off a dam", dam, wave(2, 60), "0 3213000 0");
-        check.answers("14: the wall ahead of the height", wall, wave(2, 6), "3 1003000 5");
-        check.answers("14: the wall even without energy", b -> { heights(2, "2").prepare(b); b.addWall(2, 3, 's'); },
-                wave(2, 3), "3 0000000 2");
-        check.answers("14: walls beside do not matter", b -> { heights(2, "3").prepare(b); b.addWall(2, 0, 'e'); b.addWall(2, 0, 'w'); },
+    private void thrownBack() {
+        Sentence sentence = document.term("Waves", "Ahead of a cell, it is thrown back if the side from which it comes is closed");
+        for (int row = 0; row < Beaches.ROWS; row++) {
+            int closed = row;
+            String due = row + " " + "1".repeat(row) + "3".repeat(7 - row) + " " + 2 * row;
+            sentence.answers("ahead of the row " + row, Beaches.all(Beaches.column(2, "3333333"), b -> b.addWall(2, closed, 's')), wave(2, 60), due);
+            sentence.answers("ahead of the row " + row + ", least energy", Beaches.all(Beaches.column(2, "3333333"), b -> b.addWall(2, closed, 's')),
+                    wave(2, row + 3), due);
+        }
+        sentence.answers("built from behind", Beaches.all(Beaches.column(2, "3333333"), b -> b.addWall(2, 2, 'l')), wave(2, 60), "3 1113333 6");
+        sentence.answers("by the sea it enters nothing", Beaches.all(Beaches.column(2, "3"), b -> b.addWall(2, 0, 's')), wave(2, 60), "0 3000000 0");
+        sentence.answers("a higher cell behind the wall does not matter", Beaches.all(Beaches.column(2, "3000700"), b -> b.addWall(2, 4, 's')),
+                wave(2, 5), "4 1000700 2");
+        sentence.answers("nor that no energy is left", Beaches.all(Beaches.column(2, "2"), b -> b.addWall(2, 3, 's')), wave(2, 3), "3 0000000 2");
+        sentence.answers("walls beside do not", b -> { Beaches.column(2, "3").prepare(b); b.addWall(2, 0, 'e'); b.addWall(2, 0, 'w');
+            b.addWall(2, 3, 'e'); }, wave(2, 60), "7 1000000 2");
+        sentence.answers("walls of other columns do not", Beaches.all(Beaches.column(2, "3"), b -> b.addWall(1, 0, 's'), b -> b.addWall(3, 2, 'l')),
                 wave(2, 60), "7 1000000 2");
-        check.answers("14: nothing flows", heights(2, "3333333"), b -> b.wave(2, 60) * 100 + b.sea() + b.flow(2, 0, 's'), 714);
+        sentence.answers("walls that are gone do not", Beaches.all(Beaches.column(2, "3"), b -> b.addWall(2, 2, 'l'), b -> b.removeWall(2, 2, 'l')),
+                wave(2, 60), "7 1000000 2");
     }
 
-    private static void planted(Check check) {
-        check.answers("14: plants hold, thrown back", b -> { heights(2, "33").prepare(b); b.plant(2, 0); }, wave(2, 60), "7 3100000 2");
-        check.answers("14: plants hold, stopped", b -> { heights(2, "33").prepare(b); b.plant(2, 0); }, wave(2, 6), "5 3200100 0");
-        check.answers("14: dropped on plants", b -> { heights(2, "3").prepare(b); b.plant(2, 2); }, wave(2, 4), "3 2010000 0");
-    }
-
-    private static void settled(Check check) {
-        Check.Setup drop = heights(2, "375");
-        check.answers("14: a drop lets plants topple", drop, wave(2, 9), "2 3460000 0");
-        check.answers("14: counted", drop, b -> b.wave(2, 9) * 100 + b.topplings(2, 1) * 10 + b.flow(2, 1, 'e'), 211);
-        check.answers("14: over the side", drop, b -> b.wave(2, 9) * 10 + b.height(1, 1), 21);
-        check.answers("14: just below the limit", heights(2, "365"), wave(2, 9), "2 2750000 0");
-    }
-
-    private static void wind(Check check) {
-        Check.Setup sandy = b -> { heights(2, "1230123").prepare(b); heights(4, "0500000").prepare(b); };
-        check.answers("15: from one on", sandy, b -> b.wind(1) + " " + column(b, 2) + " " + column(b, 4), "5 0231031 0500000");
-        check.answers("15: from two on", sandy, b -> b.wind(2) + " " + column(b, 2), "3 1131121");
-        check.answers("15: from three on", sandy, b -> b.wind(3) + " " + column(b, 2), "1 1221123");
-        check.answers("15: from four on", sandy, b -> b.wind(4) + " " + column(b, 2), "0 1230123");
-        check.answers("15: from nine on", sandy, b -> b.wind(9) + " " + column(b, 4), "0 0500000");
-        check.answers("15: all at the same time", heights(1, "1"), b -> b.wind(1) + " " + column(b, 1), "1 0100000");
-        check.answers("15: by the heights before", heights(1, "11"), b -> b.wind(2) + " " + column(b, 1), "0 1100000");
-        check.answers("15: given to a lower one", heights(1, "21"), b -> b.wind(2) + " " + column(b, 1), "1 1200000");
-        check.answers("15: not over a wall", b -> { heights(1, "11").prepare(b); b.addWall(1, 0, 'l'); },
-                b -> b.wind(1) + " " + column(b, 1), "1 1010000");
-        check.answers("15: not from the last row", heights(1, "0000003"), b -> b.wind(1) + " " + column(b, 1), "0 0000003");
-        check.answers("15: to plants", b -> { b.plant(1, 1); b.pour(1, 0, 1); }, b -> b.wind(1) + " " + column(b, 1), "1 0100000");
-        check.answers("15: settles", b -> { b.pour(1, 5, 3); b.pour(1, 6, 3); },
-                b -> b.wind(1) + " " + column(b, 1) + b.height(0, 6) + b.height(2, 6) + b.flow(1, 6, 's') + b.flow(1, 5, 'l'), "1 0000031111-1");
-        for (int least : new int[] {0, 10, -1, Integer.MIN_VALUE, Integer.MAX_VALUE}) {
-            check.refuses("15: least " + least, sandy, b -> b.wind(least), "IllegalArgumentException");
+    private void stops() {
+        Sentence sentence = document.term("Waves", "otherwise it stops if its energy is not greater than the height of the cell");
+        for (int height = 1; height <= 7; height++) {
+            for (int row = 0; row < 6; row++) {
+                // The bare ground ahead of the hill costs 1 for each row.
+                Beaches.Setup hill = Beaches.column(2, "0".repeat(row) + height + "0".repeat(6 - row));
+                String where = "height " + height + " in the row " + row;
+                int ahead = row;
+                int equal = row + height;
+                sentence.answers(where + ", lower", hill, b -> equal > 1 ? b.wave(2, equal - 1) : 0, row);
+                sentence.answers(where + ", equal", hill, b -> b.wave(2, equal), row);
+                sentence.answers(where + ", greater by 1", hill, b -> b.wave(2, equal + 1) > ahead, true);
+            }
         }
+        for (int energy = 1; energy <= 7; energy++) {
+            sentence.answers("height 0 and energy 0 after " + energy, Beaches.EMPTY, wave(2, energy), energy + " 0000000 0");
+        }
+        sentence.answers("it takes nothing of the cell", Beaches.column(2, "0300000"), wave(2, 4), "1 0300000 0");
+        sentence.answers("energy below 0", Beaches.all(b -> b.plant(2, 0), b -> b.plant(2, 1)), wave(2, 1), "1 0000000 0");
     }
 
-    private static void addStep(Check check) {
-        Sandpiper beach = new Sandpiper();
-        for (int step = 1; step <= 8; step++) {
-            check.same("16: step " + step, beach.addStep(step % 6, 60 / step), step);
+    private void enters() {
+        Sentence sentence = document.term("Waves", "otherwise it enters the cell");
+        sentence.answers("energy 1, height 0", Beaches.EMPTY, wave(2, 1), "1 0000000 0");
+        sentence.answers("energy 4, height 3", Beaches.column(2, "3"), b -> b.wave(2, 4), 4);
+        sentence.answers("energy 8, height 7", Beaches.column(2, "7"), b -> b.wave(2, 8), 6);
+        sentence.answers("energy 60", Beaches.PLANTED, b -> b.wave(2, 60), 7);
+    }
+
+    private void energyDecreases() {
+        Sentence quarter = document.term("Waves", "its energy decreases by 1 plus a quarter of the height, rounded down");
+        for (int height = 1; height <= 3; height++) {
+            int energy = height + 1;
+            quarter.answers("height " + height + ", bare: by 1", Beaches.column(2, height + ""), b -> b.wave(2, energy), 1 + energy - 1);
         }
-        Check.Setup eight = b -> {
-            for (int step = 1; step <= 8; step++) {
-                b.addStep(0, step);
+        quarter.answers("height 0, bare: by 1", Beaches.EMPTY, b -> b.wave(2, 5), 5);
+        int[] due = {2, 2, 2, 2, 3, 3, 3, 3};
+        for (int height = 0; height <= 7; height++) {
+            // From its hill on, the wave has bare ground ahead, one row for each energy that it has left.
+            for (int energy = Math.max(height + 1, 3); energy <= 8 && energy - due[height] <= 5; energy++) {
+                int strength = energy;
+                quarter.answers("height " + height + ", planted, energy " + energy, Beaches.planted(2, 0, height),
+                        b -> b.wave(2, strength), 1 + energy - due[height]);
+            }
+        }
+        Sentence plants = document.term("Waves", "and by 1 more if the cell is planted");
+        plants.answers("a bare cell", Beaches.EMPTY, b -> b.wave(2, 3), 3);
+        plants.answers("a planted cell", b -> b.plant(2, 0), b -> b.wave(2, 3), 2);
+        plants.answers("two planted cells", Beaches.all(b -> b.plant(2, 0), b -> b.plant(2, 1)), b -> b.wave(2, 5), 3);
+        plants.answers("a cell that was planted", Beaches.all(b -> b.plant(2, 0), b -> b.uproot(2, 0)), b -> b.wave(2, 3), 3);
+        plants.answers("all planted, 14", plantedColumn(), b -> b.wave(2, 14), 7);
+        plants.answers("all planted, 13", plantedColumn(), b -> b.wave(2, 13), 7);
+        plants.answers("all planted, 12", plantedColumn(), b -> b.wave(2, 12), 6);
+        plants.answers("planted in another column", b -> b.plant(1, 0), b -> b.wave(2, 3), 3);
+    }
+
+    private static Beaches.Setup plantedColumn() {
+        return b -> {
+            for (int row = 0; row < Beaches.ROWS; row++) {
+                b.plant(2, row);
             }
         };
-        check.refuses("16: the ninth", eight, b -> b.addStep(0, 1), "IllegalStateException");
-        check.refuses("16: the column before the eight", eight, b -> b.addStep(6, 0), "IndexOutOfBoundsException");
-        check.refuses("16: the energy before the eight", eight, b -> b.addStep(5, 0), "IllegalArgumentException");
-        check.answers("16: after clearing", eight, b -> b.clearStorm() * 10 + b.addStep(0, 1), 81);
-        check.answers("16: nothing comes yet", heights(2, "333"), b -> b.addStep(2, 60) + " " + column(b, 2), "1 3330000");
     }
 
-    private static void clearStorm(Check check) {
-        Check.Setup two = b -> { b.addStep(1, 1); b.addStep(1, 1); };
-        check.answers("17: none", Check.NOTHING, b -> b.clearStorm(), 0);
-        check.answers("17: two", two, b -> b.clearStorm(), 2);
-        check.answers("17: then none", two, b -> b.clearStorm() * 10 + b.clearStorm(), 20);
-        check.answers("17: not by a storm", two, b -> b.storm(1) * 10 + b.clearStorm(), 2);
-        check.refuses("17: then no storm", b -> { two.prepare(b); b.clearStorm(); }, b -> b.storm(1), "IllegalStateException");
+    private void becomesLoad() {
+        Sentence sentence = document.term("Waves", "then, if the cell is not planted and has grains, one of them becomes load");
+        // The wave stops ahead of the hill, after one cell, or after two: the load is dropped into the last cell first.
+        sentence.answers("no grains", Beaches.column(2, "0030000"), wave(2, 5), "2 0030000 0");
+        sentence.answers("one grain", Beaches.column(2, "1030000"), wave(2, 5), "2 0130000 0");
+        sentence.answers("two grains", Beaches.column(2, "2030000"), wave(2, 5), "2 1130000 0");
+        sentence.answers("three grains", Beaches.column(2, "3030000"), wave(2, 5), "2 2130000 0");
+        sentence.answers("two cells", Beaches.column(2, "2200300"), wave(2, 7), "4 1111300 0");
+        sentence.answers("a planted cell has grains", Beaches.all(Beaches.planted(2, 0, 3), Beaches.column(2, "003")), wave(2, 6), "2 3030000 0");
+        sentence.answers("a planted cell has none", Beaches.all(Beaches.planted(2, 0, 0), Beaches.column(2, "003")), wave(2, 6), "2 0030000 0");
     }
 
-    private static void storm(Check check) {
-        Check.Setup one = b -> { heights(2, "3333333").prepare(b); b.addStep(2, 60); };
-        check.answers("18: once", one, b -> b.storm(1) + " " + column(b, 2), "14 1111111");
-        check.answers("18: twice", one, b -> b.storm(2) + " " + column(b, 2), "21 0000000");
-        check.answers("18: five times", one, b -> b.storm(5) + " " + column(b, 2), "21 0000000");
-        check.answers("18: more than before", one, b -> b.storm(1) * 100 + b.storm(1), 1407);
-        Check.Setup order = b -> { heights(2, "3").prepare(b); b.addStep(2, 4); b.addStep(2, 60); };
-        check.answers("18: the steps in their order", order, b -> b.storm(1) + " " + column(b, 2), "3 0000000");
-        Check.Setup rounds = b -> { heights(2, "3").prepare(b); b.addStep(2, 3); b.addStep(2, 4); };
-        check.answers("18: round after round", rounds, b -> b.storm(2) + " " + column(b, 2), "0 0111000");
-        Check.Setup eight = b -> {
-            for (int step = 0; step < 8; step++) {
-                heights(step % 6, step < 6 ? "0000002" : "").prepare(b);
-                b.addStep(step % 6, 60);
-            }
-        };
-        check.answers("18: all eight steps", eight, b -> b.storm(1) + " " + b.sand(), "12 0");
-        check.answers("18: settles after each wave", b -> { heights(2, "375").prepare(b); b.addStep(2, 9); },
-                b -> b.storm(1) + " " + column(b, 2), "0 3460000");
-        check.refuses("18: no steps", heights(2, "333"), b -> b.storm(1), "IllegalStateException");
-        for (int times : new int[] {0, 6, -1, Integer.MIN_VALUE, Integer.MAX_VALUE}) {
-            check.refuses("18: times " + times, one, b -> b.storm(times), "IllegalArgumentException");
-            check.refuses("18: no steps, times " + times, Check.NOTHING, b -> b.storm(times), "IllegalArgumentException");
-        }
+    private void lastRow() {
+        Sentence sentence = document.term("Waves", "A wave that has entered the cell in the row 6 is thrown back by the closed side there, too");
+        sentence.answers("energy 6 stops ahead of it", Beaches.column(2, "1000000"), wave(2, 6), "6 0000010 0");
+        sentence.answers("energy 7 is thrown back", Beaches.column(2, "1000000"), wave(2, 7), "7 0000000 1");
+        sentence.answers("energy 9, a full column", Beaches.column(2, "3333333"), wave(2, 9), "6 3333333 0");
+        sentence.answers("energy 10, a full column", Beaches.column(2, "3333333"), wave(2, 10), "7 1111111 14");
+        sentence.answers("a hill in the row 6, equal", Beaches.column(2, "1000003"), wave(2, 9), "6 0000013 0");
+        sentence.answers("a hill in the row 6, greater by 1", Beaches.column(2, "1000003"), wave(2, 10), "7 0000001 3");
+        sentence.answers("plants in the row 6", Beaches.column(2, "1000007"), wave(2, 14), "7 0000007 1");
+        sentence.answers("plants in the row 6, equal", Beaches.column(2, "1000007"), wave(2, 13), "6 0000017 0");
     }
 
-    private static void wrong(Check check) {
-        Check.Setup sandy = b -> { heights(0, "123").prepare(b); b.addStep(0, 9); };
-        for (int column : WRONG_COLUMNS) {
-            check.refuses("14: column " + column, sandy, b -> b.wave(column, 1), "IndexOutOfBoundsException");
-            check.refuses("14: column first " + column, sandy, b -> b.wave(column, 0), "IndexOutOfBoundsException");
-            check.refuses("16: column " + column, sandy, b -> b.addStep(column, 1), "IndexOutOfBoundsException");
-            check.refuses("16: column first " + column, sandy, b -> b.addStep(column, 61), "IndexOutOfBoundsException");
+    private void lastOneFirst() {
+        Sentence sentence = document.term("Waves", "Then it goes back over the cells that it has entered, the last one first");
+        sentence.answers("one grain, four cells", Beaches.column(2, "1000000"), wave(2, 4), "4 0001000 0");
+        sentence.answers("three grains, five cells", Beaches.column(2, "1110000"), wave(2, 5), "5 0011100 0");
+        sentence.answers("one cell", Beaches.column(2, "3330000"), wave(2, 4), "1 3330000 0");
+        sentence.answers("not over the cell ahead of which it stops", Beaches.column(2, "2030000"), wave(2, 5), "2 1130000 0");
+        sentence.answers("no cell at all", Beaches.column(2, "3333333"), wave(2, 3), "0 3333333 0");
+    }
+
+    private void takesOneMore() {
+        Sentence sentence = document.term("Waves", "If it was thrown back, it takes one more grain of each that is not planted and has grains");
+        sentence.answers("of 0, 1, 2, 3", Beaches.all(Beaches.column(2, "0123"), b -> b.addWall(2, 3, 'l')), wave(2, 60), "4 0001000 5");
+        sentence.answers("of nothing", Beaches.EMPTY, wave(2, 60), "7 0000000 0");
+        sentence.answers("of single grains", Beaches.column(2, "1111111"), wave(2, 60), "7 0000000 7");
+        sentence.answers("of two grains each", Beaches.column(2, "2222222"), wave(2, 60), "7 0000000 14");
+        sentence.answers("of plants nothing", Beaches.column(2, "4567777"), wave(2, 60), "7 4567777 0");
+        sentence.answers("of low plants nothing", Beaches.all(Beaches.planted(2, 0, 1), Beaches.planted(2, 1, 3), Beaches.column(2, "003")),
+                wave(2, 60), "7 1310000 2");
+        sentence.answers("of cells behind the wall nothing", Beaches.all(Beaches.column(2, "2222222"), b -> b.addWall(2, 1, 's')), wave(2, 60), "1 0222222 2");
+        sentence.answers("nothing if it stopped", Beaches.column(2, "3330000"), wave(2, 6), "6 2221110 0");
+    }
+
+    private void drops() {
+        Sentence sentence = document.term("Waves", "if it stopped, it drops one grain into each, planted or not, as long as it has load");
+        sentence.answers("as long as it has load", Beaches.column(2, "1100000"), wave(2, 6), "6 0000110 0");
+        sentence.answers("one into each", Beaches.column(2, "2220000"), wave(2, 5), "5 1121100 0");
+        sentence.answers("nothing without load", Beaches.EMPTY, wave(2, 5), "5 0000000 0");
+        sentence.answers("as many as cells", Beaches.column(2, "1113000"), wave(2, 4), "3 1113000 0");
+        sentence.answers("into an empty planted cell", Beaches.all(Beaches.column(2, "3"), b -> b.plant(2, 2)), wave(2, 4), "3 2010000 0");
+        sentence.answers("into a planted cell with grains", Beaches.all(Beaches.column(2, "301"), Beaches.planted(2, 1, 2)), wave(2, 4), "2 2310000 0");
+        sentence.answers("into the bare cell behind it", Beaches.all(Beaches.column(2, "300"), Beaches.planted(2, 1, 2)), wave(2, 4), "3 2210000 0");
+        sentence.answers("nothing into the sea", Beaches.column(2, "3332000"), wave(2, 6), "6 2232110 0");
+    }
+
+    private void restIntoTheSea() {
+        Sentence sentence = document.term("Waves", "What is left of the load goes into the sea");
+        sentence.answers("all if it was thrown back", Beaches.column(2, "3333333"), wave(2, 60), "7 1111111 14");
+        sentence.answers("one grain", Beaches.column(2, "0000001"), wave(2, 60), "7 0000000 1");
+        sentence.answers("none if there is none", Beaches.EMPTY, wave(2, 60), "7 0000000 0");
+        sentence.answers("none if all is dropped", Beaches.column(2, "3330000"), wave(2, 6), "6 2221110 0");
+        sentence.answers("to what is there", Beaches.all(b -> b.pour(4, 0, 4), Beaches.column(2, "3")), b -> b.wave(2, 60) + " " + b.sea(), "7 3");
+        sentence.answers("off a wall", Beaches.all(Beaches.column(2, "33"), b -> b.addWall(2, 1, 'l')), wave(2, 60), "2 1100000 4");
+    }
+
+    private void settles() {
+        Sentence sentence = document.term("Waves", "Then the beach settles");
+        Beaches.Setup full = Beaches.column(2, "375");
+        sentence.answers("a drop into 7 planted grains", full, wave(2, 9), "2 3460000 0");
+        sentence.answers("its topplings are counted", full, b -> b.wave(2, 9) * 100 + b.topplings(2, 1) * 10 + b.flow(2, 1, 'e'), 211);
+        sentence.answers("it slides to the columns beside", full, b -> b.wave(2, 9) * 100 + b.height(1, 1) * 10 + b.height(3, 1), 211);
+        sentence.answers("a drop into 6 planted grains", Beaches.column(2, "365"), wave(2, 9), "2 2750000 0");
+        sentence.answers("nothing slides where grains were taken", Beaches.all(Beaches.column(2, "37"), b -> b.addWall(2, 1, 'l')),
+                wave(2, 60), "2 1700000 2");
+        sentence.answers("into the sea", Beaches.all(Beaches.column(2, "1"), Beaches.planted(2, 1, 7), Beaches.column(2, "007"), b -> b.pour(1, 1, 3),
+                b -> b.pour(1, 0, 3)), b -> b.wave(2, 9) + " " + b.sea(), "2 1");
+    }
+
+    private void promise14Comes() {
+        Sentence sentence = document.promise(14, "Lets a wave come");
+        sentence.answers("the least energy", Beaches.column(0, "0100000"), wave(0, 1), "1 0100000 0");
+        sentence.answers("the most energy", Beaches.column(5, "3333333"), wave(5, 60), "7 1111111 14");
+        sentence.answers("again and again until nothing is left", Beaches.column(5, "3333333"),
+                b -> b.wave(5, 60) + b.wave(5, 60) + b.wave(5, 60) + " " + Beaches.heights(b, 5) + " " + b.sea(), "21 0000000 21");
+        sentence.answers("on a full beach", Beaches.PLANTED, b -> b.wave(3, 60) + " " + b.sand() + " " + b.sea(), "7 294 0");
+    }
+
+    private void promise14Returns() {
+        Sentence sentence = document.promise(14, "Returns the number of cells that it enters");
+        for (int energy = 1; energy <= 60; energy++) {
+            int strength = energy;
+            sentence.answers("bare ground, energy " + energy, Beaches.EMPTY, b -> b.wave(3, strength), Math.min(energy, 7));
         }
-        for (int energy : WRONG_ENERGIES) {
-            check.refuses("14: energy " + energy, sandy, b -> b.wave(0, energy), "IllegalArgumentException");
-            check.refuses("16: energy " + energy, sandy, b -> b.addStep(0, energy), "IllegalArgumentException");
-        }
-        check.answers("14: the last column, the most energy", sandy, b -> b.wave(5, 60), 7);
-        check.answers("16: the last column, the most energy", sandy, b -> b.addStep(5, 60), 2);
+        sentence.answers("none", Beaches.column(3, "3"), b -> b.wave(3, 3), 0);
+        sentence.answers("none, a dam", b -> b.addWall(3, 0, 's'), b -> b.wave(3, 60), 0);
+        sentence.answers("all", Beaches.LEVEL, b -> b.wave(3, 60), 7);
+        sentence.answers("cells with the energy just enough for all of a full column", Beaches.column(3, "7777777"), b -> b.wave(3, 26), 7);
+        sentence.answers("cells with one less", Beaches.column(3, "7777777"), b -> b.wave(3, 25), 6);
+    }
+
+    private void promise14Throws() {
+        Arguments.columns(document.promise(14, "Throws IndexOutOfBoundsException if there is no such column"), (b, column) -> b.wave(column, 1));
+        Sentence sentence = document.promise(14, "Throws IllegalArgumentException if the energy is not between 1 and 60");
+        Arguments.numbers(sentence, 1, 60, (b, energy) -> b.wave(0, energy));
+        sentence.refuses("energy 0 ahead of a dam", Beaches.DAMS, b -> b.wave(0, 0), Sentence.WRONG_ARGUMENT);
+        sentence.refuses("energy 61 on a full beach", Beaches.LEVEL, b -> b.wave(5, 61), Sentence.WRONG_ARGUMENT);
     }
 }
