@@ -66,7 +66,8 @@ final class Arguments {
             Object got = Sentence.outcome(Beaches.ready(Beaches.BUSY), b -> call.answer(b, kept));
             sentence.same("right is " + number, got.equals("throws." + Sentence.WRONG_ARGUMENT), false);
         }
-        int[] wrong = {least - 1, most + 1, -most, -least - 1, least + 256, least + 65536, most - 256, LOWEST, LOWEST + least,
+        int[] wrong = {least - 1, most + 1, -most, -least - 1, least + 256, least + 65536, most - 256, LOWEST,
+                LOWEST + least,
             HIGHEST};
         for (int number : wrong) {
             sentence.refuses("wrong is " + number, Beaches.BUSY, b -> call.answer(b, number), Sentence.WRONG_ARGUMENT);

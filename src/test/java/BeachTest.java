@@ -193,7 +193,8 @@ final class BeachTest {
                     int here = first < 4 ? cell : Beaches.CELLS - 1 - cell;
                     for (int side = 0; side < 4; side++) {
                         char letter = Beaches.SIDES.charAt((side + first) % 4);
-                        Object got = Sentence.outcome(b, x -> x.addWall(Beaches.columnOf(here), Beaches.rowOf(here), letter));
+                        Object got = Sentence.outcome(b, x -> x.addWall(Beaches.columnOf(here), Beaches.rowOf(here),
+                                letter));
                         walls = got instanceof Integer ? (Integer) got : walls;
                     }
                 }
@@ -224,7 +225,8 @@ final class BeachTest {
         sentence.changesNothing("all of them", Beaches.BUSY, b -> countRefused(b, refused));
         Beaches.Setup full = Beaches.all(Beaches.BUSY, b -> b.clearStorm(), Beaches.EIGHT_STEPS);
         sentence.refuses("a full storm", full, b -> b.addStep(0, 1), Sentence.WRONG_STATE);
-        sentence.refuses("an empty storm", Beaches.all(Beaches.BUSY, b -> b.clearStorm()), b -> b.storm(1), Sentence.WRONG_STATE);
+        sentence.refuses("an empty storm", Beaches.all(Beaches.BUSY, b -> b.clearStorm()), b -> b.storm(1),
+                Sentence.WRONG_STATE);
     }
 
     private static int countRefused(Sandpiper beach, Sentence.Call[] calls) {
@@ -236,7 +238,8 @@ final class BeachTest {
     }
 
     private void firstListedIsThrown() {
-        Sentence sentence = document.term("Exceptions", "If several exceptions apply, the one that is listed first is thrown");
+        Sentence sentence = document.term("Exceptions",
+                "If several exceptions apply, the one that is listed first is thrown");
         int[][] cells = {{6, 0}, {-1, 0}, {0, 7}, {0, -1}};
         for (int[] cell : cells) {
             int column = cell[0];
@@ -245,7 +248,8 @@ final class BeachTest {
             for (int grains : new int[] {0, 61}) {
                 first(sentence, "pour" + where + " of " + grains, b -> b.pour(column, row, grains), Sentence.NO_PLACE);
                 first(sentence, "dig" + where + " of " + grains, b -> b.dig(column, row, grains), Sentence.NO_PLACE);
-                first(sentence, "topplesIf" + where + " of " + grains, b -> b.topplesIf(column, row, grains), Sentence.NO_PLACE);
+                first(sentence, "topplesIf" + where + " of " + grains, b -> b.topplesIf(column, row, grains),
+                        Sentence.NO_PLACE);
                 first(sentence, "topplesIfBySweeps" + where + " of " + grains,
                         b -> b.topplesIfBySweeps(column, row, grains), Sentence.NO_PLACE);
                 first(sentence, "lostIf" + where + " of " + grains, b -> b.lostIf(column, row, grains), Sentence.NO_PLACE);
@@ -290,16 +294,19 @@ final class BeachTest {
             int column = Beaches.columnOf(cell);
             int row = Beaches.rowOf(cell);
             sentence.answers("no sand and plants at " + column + "," + row, Beaches.EMPTY, b -> b.height(column, row) + " "
-                    + b.heightByFlows(column, row) + " " + b.topplings(column, row) + " " + b.isPlanted(column, row), "0 0 0 false");
+                    + b.heightByFlows(column, row) + " " + b.topplings(column, row) + " " + b.isPlanted(column, row),
+                            "0 0 0 false");
         }
         sentence.answers("no flows", Beaches.EMPTY, b -> Beaches.ofAllSides((c, r, s) -> b.flow(c, r, s)), "0 ".repeat(168));
         sentence.answers("no sums", Beaches.EMPTY, b -> Views.sums(b), "0 0 0 0.0");
         sentence.answers("the first plant", Beaches.EMPTY, b -> b.plant(0, 0), 1);
         sentence.answers("the first wall", Beaches.EMPTY, b -> b.addWall(0, 0, 's'), 1);
         sentence.answers("the first step", Beaches.EMPTY, b -> b.clearStorm() * 10 + b.addStep(0, 1), 1);
-        sentence.answers("nothing to drop for the first wave", Beaches.EMPTY, b -> b.wave(3, 3) + " " + b.sand() + " " + b.sea(), "3 0 0");
+        sentence.answers("nothing to drop for the first wave", Beaches.EMPTY,
+                b -> b.wave(3, 3) + " " + b.sand() + " " + b.sea(), "3 0 0");
         Sandpiper before = Beaches.ready(Beaches.BUSY);
         sentence.same("a second object has none of the first", Views.HEIGHTS.of(new Sandpiper()).contains("p"), false);
-        sentence.same("nor has the first of the second", Views.HEIGHTS.of(before), Views.HEIGHTS.of(Beaches.ready(Beaches.BUSY)));
+        sentence.same("nor has the first of the second", Views.HEIGHTS.of(before),
+                Views.HEIGHTS.of(Beaches.ready(Beaches.BUSY)));
     }
 }

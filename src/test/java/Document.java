@@ -45,7 +45,8 @@ final class Document {
         for (Map.Entry<String, List<String>> section : clauses.entrySet()) {
             for (String clause : section.getValue()) {
                 boolean needsTest = !section.getKey().equals("What it is");
-                check.same(section.getKey() + ": a test for '" + clause + "'", !needsTest || isNamed(section.getKey(), clause), true);
+                check.same(section.getKey() + ": a test for '" + clause + "'",
+                        !needsTest || isNamed(section.getKey(), clause), true);
             }
         }
     }

@@ -79,10 +79,12 @@ final class FaceTest {
 
     private static void members(Check check) {
         Class<?> kind = Sandpiper.class;
-        check.same("public and final", kind.getModifiers() & (Modifier.PUBLIC | Modifier.FINAL), Modifier.PUBLIC | Modifier.FINAL);
+        check.same("public and final", kind.getModifiers() & (Modifier.PUBLIC | Modifier.FINAL),
+                Modifier.PUBLIC | Modifier.FINAL);
         Constructor<?>[] constructors = kind.getDeclaredConstructors();
         check.same("one constructor", constructors.length, 1);
-        check.same("without arguments", constructors[0].getParameterCount() + Modifier.toString(constructors[0].getModifiers()), "0public");
+        check.same("without arguments", constructors[0].getParameterCount()
+                + Modifier.toString(constructors[0].getModifiers()), "0public");
         Set<String> open = new HashSet<>();
         for (Method method : kind.getDeclaredMethods()) {
             if (Modifier.isPublic(method.getModifiers())) {
@@ -102,14 +104,16 @@ final class FaceTest {
             }
         }
         for (Class<?> part : kind.getDeclaredClasses()) {
-            check.same(part.getName() + " is static", Modifier.isStatic(part.getModifiers()) && !Modifier.isPublic(part.getModifiers()), true);
+            check.same(part.getName() + " is static",
+                    Modifier.isStatic(part.getModifiers()) && !Modifier.isPublic(part.getModifiers()), true);
             for (Method method : part.getDeclaredMethods()) {
                 if (open.contains(method.getName())) {
                     shared.add(part.getName() + "." + method.getName());
                 }
             }
             for (Field field : part.getDeclaredFields()) {
-                check.same(field + " is not shared", !Modifier.isStatic(field.getModifiers()) || Modifier.isFinal(field.getModifiers()), true);
+                check.same(field + " is not shared",
+                        !Modifier.isStatic(field.getModifiers()) || Modifier.isFinal(field.getModifiers()), true);
             }
         }
         check.same("no name of a public method is used again", shared.toString(), "[]");

@@ -25,9 +25,12 @@ final class PlantsTest {
         sentence.answers("it is planted", b -> b.plant(1, 4), b -> b.isPlanted(1, 4), true);
         sentence.answers("it alone", b -> b.plant(1, 4), b -> plantedCells(b), 1);
         sentence.answers("its sand stays", b -> b.pour(1, 4, 3), b -> b.plant(1, 4) * 10 + b.height(1, 4), 13);
-        sentence.answers("it holds 7", b -> { b.pour(1, 4, 3); b.plant(1, 4); }, b -> b.pour(1, 4, 4) * 10 + b.height(1, 4), 7);
-        sentence.answers("it does not hold 8", b -> { b.pour(1, 4, 3); b.plant(1, 4); }, b -> b.pour(1, 4, 5) * 10 + b.height(1, 4), 14);
-        sentence.answers("nothing topples", Beaches.LEVEL, b -> { b.plant(1, 4); return b.topplings(1, 4) + " " + b.sand(); }, "0 126");
+        sentence.answers("it holds 7", b -> { b.pour(1, 4, 3); b.plant(1, 4); },
+                b -> b.pour(1, 4, 4) * 10 + b.height(1, 4), 7);
+        sentence.answers("it does not hold 8", b -> { b.pour(1, 4, 3); b.plant(1, 4); },
+                b -> b.pour(1, 4, 5) * 10 + b.height(1, 4), 14);
+        sentence.answers("nothing topples", Beaches.LEVEL,
+                b -> { b.plant(1, 4); return b.topplings(1, 4) + " " + b.sand(); }, "0 126");
         sentence.answers("all cells", Beaches.PLANTED, b -> plantedCells(b), 42);
     }
 
@@ -60,11 +63,13 @@ final class PlantsTest {
         sentence.refuses("planted again after uprooting", b -> { b.plant(2, 2); b.uproot(2, 2); b.plant(2, 2); },
                 b -> b.plant(2, 2), Sentence.WRONG_STATE);
         sentence.answers("not after uprooting", b -> { b.plant(2, 2); b.uproot(2, 2); }, b -> b.plant(2, 2), 1);
-        sentence.answers("not if others are", b -> { b.plant(2, 2); b.plant(1, 3); }, b -> b.plant(2, 3) * 10 + b.plant(3, 2), 34);
+        sentence.answers("not if others are", b -> { b.plant(2, 2); b.plant(1, 3); },
+                b -> b.plant(2, 3) * 10 + b.plant(3, 2), 34);
         for (int cell = 0; cell < Beaches.CELLS; cell++) {
             int column = Beaches.columnOf(cell);
             int row = Beaches.rowOf(cell);
-            sentence.answers("all are, at " + column + "," + row, Beaches.PLANTED, b -> b.plant(column, row), "throws.IllegalStateException");
+            sentence.answers("all are, at " + column + "," + row, Beaches.PLANTED, b -> b.plant(column, row),
+                    "throws.IllegalStateException");
         }
         sentence.refuses("all are", Beaches.PLANTED, b -> b.plant(5, 6), Sentence.WRONG_STATE);
     }
@@ -98,7 +103,8 @@ final class PlantsTest {
         sentence.answers("3 grains", Beaches.planted(2, 3, 3), b -> b.uproot(2, 3), 0);
         sentence.answers("4 grains", Beaches.planted(2, 3, 4), b -> b.uproot(2, 3), 1);
         sentence.answers("7 grains", Beaches.planted(2, 3, 7), b -> b.uproot(2, 3), 1);
-        sentence.answers("the cell beside too", b -> { Beaches.planted(2, 3, 4).prepare(b); b.pour(3, 3, 3); }, b -> b.uproot(2, 3), 2);
+        sentence.answers("the cell beside too", b -> { Beaches.planted(2, 3, 4).prepare(b); b.pour(3, 3, 3); },
+                b -> b.uproot(2, 3), 2);
         sentence.answers("this call alone", b -> { b.pour(0, 6, 60); b.plant(2, 3); }, b -> b.uproot(2, 3), 0);
     }
 
@@ -114,7 +120,8 @@ final class PlantsTest {
         for (int cell = 0; cell < Beaches.CELLS; cell++) {
             int column = Beaches.columnOf(cell);
             int row = Beaches.rowOf(cell);
-            sentence.answers("none is, at " + column + "," + row, Beaches.EMPTY, b -> b.uproot(column, row), "throws.IllegalStateException");
+            sentence.answers("none is, at " + column + "," + row, Beaches.EMPTY, b -> b.uproot(column, row),
+                    "throws.IllegalStateException");
         }
     }
 
@@ -131,7 +138,8 @@ final class PlantsTest {
             sentence.same("all" + where, all.isPlanted(column, row), true);
         }
         sentence.answers("uprooted", b -> { b.plant(0, 0); b.uproot(0, 0); }, b -> b.isPlanted(0, 0), false);
-        sentence.answers("its column and row", b -> b.plant(2, 3), b -> b.isPlanted(2, 3) + " " + b.isPlanted(3, 2), "true false");
+        sentence.answers("its column and row", b -> b.plant(2, 3), b -> b.isPlanted(2, 3) + " " + b.isPlanted(3, 2),
+                "true false");
         sentence.changesNothing("asked", Beaches.BUSY, b -> b.isPlanted(2, 1));
         Arguments.cells(document.promise(13, NO_CELL), (b, column, row) -> b.isPlanted(column, row));
     }

@@ -42,7 +42,8 @@ final class SandTest {
         sentence.answers("on others", b -> b.pour(3, 2, 1), b -> b.pour(3, 2, 2) * 10 + b.height(3, 2), 3);
         sentence.answers("on plants", b -> b.plant(3, 2), b -> b.pour(3, 2, 7) * 10 + b.height(3, 2), 7);
         sentence.answers("on a full beach", Beaches.LEVEL, b -> { b.pour(0, 6, 60); return b.sand() + b.sea(); }, 186);
-        sentence.answers("on a beach full of plants", Beaches.PLANTED, b -> { b.pour(0, 6, 60); return b.sand() + b.sea(); }, 354);
+        sentence.answers("on a beach full of plants", Beaches.PLANTED,
+                b -> { b.pour(0, 6, 60); return b.sand() + b.sea(); }, 354);
     }
 
     private void promise2Settles() {
@@ -51,8 +52,10 @@ final class SandTest {
         sentence.answers("4 slide", b -> b.pour(2, 3, 4), b -> b.height(2, 3) + " " + b.height(2, 2), "0 1");
         sentence.answers("planted, 7 stay", Beaches.planted(2, 3, 7), b -> b.height(2, 3) + " " + b.height(2, 2), "7 0");
         sentence.answers("planted, 8 slide", Beaches.planted(2, 3, 8), b -> b.height(2, 3) + " " + b.height(2, 2), "4 1");
-        sentence.answers("planted, 11 slide once", Beaches.planted(2, 3, 11), b -> b.height(2, 3) + " " + b.height(2, 2), "7 1");
-        sentence.answers("planted, 12 slide twice", Beaches.planted(2, 3, 12), b -> b.height(2, 3) + " " + b.height(2, 2), "4 2");
+        sentence.answers("planted, 11 slide once", Beaches.planted(2, 3, 11), b -> b.height(2, 3) + " " + b.height(2, 2),
+                "7 1");
+        sentence.answers("planted, 12 slide twice", Beaches.planted(2, 3, 12),
+                b -> b.height(2, 3) + " " + b.height(2, 2), "4 2");
         sentence.answers("the cell beside slides too", b -> { b.pour(3, 3, 3); b.pour(2, 3, 4); },
                 b -> b.height(2, 3) + " " + b.height(3, 3) + " " + b.height(4, 3), "1 0 1");
     }
@@ -102,7 +105,8 @@ final class SandTest {
         sentence.answers("one of three", three, b -> { b.dig(4, 5, 1); return b.height(4, 5); }, 2);
         sentence.answers("all of three", three, b -> { b.dig(4, 5, 3); return b.height(4, 5) + b.sand(); }, 0);
         sentence.answers("none of other cells", Beaches.LEVEL, b -> { b.dig(4, 5, 3); return b.sand(); }, 123);
-        sentence.answers("not into the sea", b -> b.pour(4, 0, 3), b -> { b.dig(4, 0, 3); return b.sea() + " " + b.flow(4, 0, 's'); }, "0 0");
+        sentence.answers("not into the sea", b -> b.pour(4, 0, 3),
+                b -> { b.dig(4, 0, 3); return b.sea() + " " + b.flow(4, 0, 's'); }, "0 0");
         sentence.answers("all that a full beach has", Beaches.PLANTED, b -> {
             for (int cell = 0; cell < Beaches.CELLS; cell++) {
                 b.dig(Beaches.columnOf(cell), Beaches.rowOf(cell), 7);
@@ -117,7 +121,8 @@ final class SandTest {
             int grains = height;
             for (int dug = 1; dug <= height; dug++) {
                 int taken = dug;
-                sentence.answers(dug + " of " + height, Beaches.planted(4, 5, grains), b -> b.dig(4, 5, taken), grains - taken);
+                sentence.answers(dug + " of " + height, Beaches.planted(4, 5, grains), b -> b.dig(4, 5, taken),
+                        grains - taken);
             }
         }
         sentence.answers("of bare ground", b -> b.pour(0, 0, 3), b -> b.dig(0, 0, 2), 1);
@@ -144,15 +149,19 @@ final class SandTest {
         for (int cell = 0; cell < Beaches.CELLS; cell++) {
             int column = Beaches.columnOf(cell);
             int row = Beaches.rowOf(cell);
-            sentence.answers("none at " + column + "," + row, Beaches.EMPTY, b -> b.dig(column, row, 1), "throws.NoSuchElementException");
+            sentence.answers("none at " + column + "," + row, Beaches.EMPTY, b -> b.dig(column, row, 1),
+                    "throws.NoSuchElementException");
         }
-        sentence.refuses("when all is dug out", b -> { b.pour(4, 5, 3); b.dig(4, 5, 3); }, b -> b.dig(4, 5, 1), Sentence.NONE_THERE);
-        sentence.refuses("when others have more", Beaches.all(Beaches.PLANTED, b -> b.dig(4, 5, 6)), b -> b.dig(4, 5, 2), Sentence.NONE_THERE);
+        sentence.refuses("when all is dug out", b -> { b.pour(4, 5, 3); b.dig(4, 5, 3); }, b -> b.dig(4, 5, 1),
+                Sentence.NONE_THERE);
+        sentence.refuses("when others have more", Beaches.all(Beaches.PLANTED, b -> b.dig(4, 5, 6)), b -> b.dig(4, 5, 2),
+                Sentence.NONE_THERE);
     }
 
     private void promise4() {
         document.promise(4, "Returns how often cells would topple").same("none", new Sandpiper().topplesIf(0, 0, 3), 0);
-        Sentence sentence = document.promise(4, "Returns how often cells would topple if grains were poured on a cell, found with a "
+        Sentence sentence = document.promise(4,
+                "Returns how often cells would topple if grains were poured on a cell, found with a "
                 + "queue of cells");
         topples(sentence, Sandpiper::topplesIf);
         Arguments.cells(document.promise(4, NO_CELL), (b, column, row) -> b.topplesIf(column, row, 1));
@@ -160,7 +169,8 @@ final class SandTest {
     }
 
     private void promise5() {
-        document.promise(5, "Returns how often cells would topple").same("none", new Sandpiper().topplesIfBySweeps(0, 0, 3), 0);
+        document.promise(5, "Returns how often cells would topple").same("none",
+                new Sandpiper().topplesIfBySweeps(0, 0, 3), 0);
         Sentence sentence = document.promise(5, "Returns the same number, found by sweeps from the land to the sea");
         topples(sentence, Sandpiper::topplesIfBySweeps);
         Arguments.cells(document.promise(5, NO_CELL), (b, column, row) -> b.topplesIfBySweeps(column, row, 1));
@@ -169,7 +179,8 @@ final class SandTest {
 
     private void promise6() {
         document.promise(6, "Returns the number of grains").same("none", new Sandpiper().lostIf(0, 0, 3), 0);
-        Sentence sentence = document.promise(6, "Returns how many grains would go into the sea if grains were poured on a cell, found "
+        Sentence sentence = document.promise(6,
+                "Returns how many grains would go into the sea if grains were poured on a cell, found "
                 + "with a queue of cells");
         lost(sentence, Sandpiper::lostIf);
         Arguments.cells(document.promise(6, NO_CELL), (b, column, row) -> b.lostIf(column, row, 1));
@@ -209,7 +220,8 @@ final class SandTest {
         sentence.answers("60 grains by the sea", Beaches.EMPTY, b -> trial.answer(b, 3, 0, 60), 30);
         sentence.answers("behind a dam", b -> b.addWall(3, 0, 's'), b -> trial.answer(b, 3, 0, 4), 0);
         sentence.answers("not what was lost before", b -> b.pour(3, 0, 60), b -> trial.answer(b, 5, 6, 3), 0);
-        sentence.answers("the second time", b -> b.pour(3, 0, 60), b -> trial.answer(b, 2, 0, 60) - trial.answer(b, 2, 0, 60), 0);
+        sentence.answers("the second time", b -> b.pour(3, 0, 60),
+                b -> trial.answer(b, 2, 0, 60) - trial.answer(b, 2, 0, 60), 0);
         trials(sentence, trial, (beach, column, row, grains) -> {
             int before = beach.sea();
             beach.pour(column, row, grains);

@@ -19,7 +19,8 @@ final class SlidingTest {
     }
 
     private void tooHigh() {
-        Sentence sentence = document.term("Sliding", "A cell is too high if it has at least 4 grains, or at least 8 if it is planted");
+        Sentence sentence = document.term("Sliding",
+                "A cell is too high if it has at least 4 grains, or at least 8 if it is planted");
         for (int cell = 0; cell < Beaches.CELLS; cell++) {
             int column = Beaches.columnOf(cell);
             int row = Beaches.rowOf(cell);
@@ -37,32 +38,38 @@ final class SlidingTest {
     }
 
     private void oneGrainOverEachOpenSide() {
-        Sentence sentence = document.term("Sliding", "When a cell topples, one grain goes over each of its open sides, to the "
+        Sentence sentence = document.term("Sliding",
+                "When a cell topples, one grain goes over each of its open sides, to the "
                 + "cell there or into the sea");
         for (int cell = 0; cell < Beaches.CELLS; cell++) {
             int column = Beaches.columnOf(cell);
             int row = Beaches.rowOf(cell);
             String where = " at " + column + "," + row;
-            sentence.answers("to each cell beside" + where, b -> b.pour(column, row, 4), b -> around(b, column, row), aroundDue(column, row));
+            sentence.answers("to each cell beside" + where, b -> b.pour(column, row, 4), b -> around(b, column, row),
+                    aroundDue(column, row));
             int open = 4;
             for (char side : Beaches.SIDES.toCharArray()) {
                 open -= Beaches.isEdge(column, row, side) ? 1 : 0;
             }
             int left = 4 - open;
             sentence.answers("so many are left" + where, b -> b.pour(column, row, 4), b -> b.height(column, row), left);
-            sentence.answers("so many are left of 8 planted" + where, Beaches.planted(column, row, 8), b -> b.height(column, row), left + 4);
+            sentence.answers("so many are left of 8 planted" + where, Beaches.planted(column, row, 8),
+                    b -> b.height(column, row), left + 4);
         }
         Beaches.Setup one = b -> {
             b.addWall(2, 3, 'l');
             b.addWall(2, 3, 'e');
             b.addWall(2, 3, 'w');
         };
-        sentence.answers("over one open side alone", one, b -> b.pour(2, 3, 5) + " " + b.height(2, 3) + " " + b.height(2, 2), "2 3 2");
+        sentence.answers("over one open side alone", one,
+                b -> b.pour(2, 3, 5) + " " + b.height(2, 3) + " " + b.height(2, 2), "2 3 2");
         sentence.answers("none over walls", one, b -> b.pour(2, 3, 5) + b.height(2, 4) + b.height(1, 3) + b.height(3, 3), 2);
-        sentence.answers("none over a dam", b -> b.addWall(3, 0, 's'), b -> b.pour(3, 0, 4) + " " + b.height(3, 0) + " " + b.sea(), "1 1 0");
+        sentence.answers("none over a dam", b -> b.addWall(3, 0, 's'),
+                b -> b.pour(3, 0, 4) + " " + b.height(3, 0) + " " + b.sea(), "1 1 0");
         sentence.answers("over a dam that is gone", b -> { b.addWall(3, 0, 's'); b.removeWall(3, 0, 's'); },
                 b -> b.pour(3, 0, 4) + " " + b.height(3, 0) + " " + b.sea(), "1 0 1");
-        sentence.answers("the sea alone", b -> { one.prepare(b); b.addWall(4, 0, 'l'); b.addWall(4, 0, 'w'); b.addWall(4, 0, 'e'); },
+        sentence.answers("the sea alone", b -> { one.prepare(b); b.addWall(4, 0, 'l'); b.addWall(4, 0, 'w');
+                b.addWall(4, 0, 'e'); },
                 b -> b.pour(4, 0, 60) + " " + b.height(4, 0) + " " + b.sea(), "57 3 57");
     }
 
@@ -85,10 +92,13 @@ final class SlidingTest {
     }
 
     private void again() {
-        Sentence sentence = document.term("Sliding", "Settling lets a cell that is too high topple, again and again until there is none");
-        sentence.answers("20 grains, 6 times there and once beside", b -> b.pour(2, 3, 20), b -> b.topplings(2, 3) + " " + b.height(2, 3)
+        Sentence sentence = document.term("Sliding",
+                "Settling lets a cell that is too high topple, again and again until there is none");
+        sentence.answers("20 grains, 6 times there and once beside", b -> b.pour(2, 3, 20),
+                b -> b.topplings(2, 3) + " " + b.height(2, 3)
                 + " " + b.height(2, 2) + b.height(2, 4) + b.height(1, 3) + b.height(3, 3), "6 0 2222");
-        sentence.answers("a beach at rest stays", Beaches.LEVEL, b -> b.sand() + " " + b.sea() + " " + b.topplings(3, 3), "126 0 0");
+        sentence.answers("a beach at rest stays", Beaches.LEVEL, b -> b.sand() + " " + b.sea() + " " + b.topplings(3, 3),
+                "126 0 0");
         Beaches.Setup[] setups = {Beaches.EMPTY, Beaches.LEVEL, Beaches.COMB, Beaches.SNAKE, Beaches.DAMS, Beaches.PLANTED};
         for (int i = 0; i < setups.length; i++) {
             int kind = i;
@@ -117,7 +127,8 @@ final class SlidingTest {
 
     /** The same grains in other orders, and in one call and in several, end as the same beach. */
     private void anyOrder() {
-        Sentence sentence = document.term("Sliding", "which one it is each time makes no difference for the heights, and none for "
+        Sentence sentence = document.term("Sliding",
+                "which one it is each time makes no difference for the heights, and none for "
                 + "how often each cell topples");
         Beaches.Setup[] setups = {Beaches.EMPTY, Beaches.LEVEL, Beaches.COMB, Beaches.DAMS, Beaches.PLANTED};
         int[][] pours = {{2, 3, 50}, {0, 6, 37}, {5, 0, 21}, {4, 6, 60}, {2, 2, 9}};
@@ -163,10 +174,13 @@ final class SlidingTest {
             sentence.answers("one topples, " + side, b -> b.pour(2, 3, 4), b -> b.flow(2, 3, side), 1);
             sentence.answers("six times, and once back, " + side, b -> b.pour(2, 3, 20), b -> b.flow(2, 3, side), 6 - 1);
         }
-        sentence.answers("after uprooting", b -> { b.plant(2, 3); b.pour(2, 3, 4); b.uproot(2, 3); }, b -> b.flow(2, 3, 's'), 1);
-        sentence.answers("after a wave", Beaches.column(2, "375"), b -> b.wave(2, 9) + " " + b.flow(2, 1, 'e') + " " + b.flow(2, 1, 's'), "2 1 1");
+        sentence.answers("after uprooting", b -> { b.plant(2, 3); b.pour(2, 3, 4); b.uproot(2, 3); },
+                b -> b.flow(2, 3, 's'), 1);
+        sentence.answers("after a wave", Beaches.column(2, "375"),
+                b -> b.wave(2, 9) + " " + b.flow(2, 1, 'e') + " " + b.flow(2, 1, 's'), "2 1 1");
         sentence.answers("after wind", b -> { b.pour(1, 5, 3); b.pour(1, 6, 3); },
-                b -> b.wind(3) + " " + b.flow(1, 6, 's') + b.flow(1, 6, 'w') + b.flow(1, 6, 'e') + b.flow(1, 5, 'l'), "1 111-1");
+                b -> b.wind(3) + " " + b.flow(1, 6, 's') + b.flow(1, 6, 'w') + b.flow(1, 6, 'e') + b.flow(1, 5, 'l'),
+                        "1 111-1");
         sentence.answers("into the sea", b -> b.pour(3, 0, 4), b -> b.flow(3, 0, 's') + " " + b.sea(), "1 1");
     }
 

@@ -43,12 +43,15 @@ final class WallsTest {
         Sentence sentence = document.promise(10, "Builds a wall on a side of a cell");
         for (char side : Beaches.SIDES.toCharArray()) {
             sentence.answers("on " + side, b -> b.addWall(2, 3, side), b -> b.isClosed(2, 3, side), true);
-            sentence.answers("nothing flows over " + side, b -> b.addWall(2, 3, side), b -> b.pour(2, 3, 4) + " " + b.flow(2, 3, side)
+            sentence.answers("nothing flows over " + side, b -> b.addWall(2, 3, side),
+                    b -> b.pour(2, 3, 4) + " " + b.flow(2, 3, side)
                     + " " + b.height(2, 3), "1 0 1");
         }
         sentence.answers("by the sea", b -> b.addWall(5, 0, 's'), b -> b.pour(5, 0, 4) + " " + b.sea(), "1 0");
-        sentence.answers("what has flowed stays counted", b -> b.pour(2, 3, 4), b -> b.addWall(2, 3, 'e') * 10 + b.flow(2, 3, 'e'), 11);
-        sentence.answers("heights stay", Beaches.LEVEL, b -> { b.addWall(2, 3, 'e'); return b.sand() + " " + b.topplings(2, 3); }, "126 0");
+        sentence.answers("what has flowed stays counted", b -> b.pour(2, 3, 4),
+                b -> b.addWall(2, 3, 'e') * 10 + b.flow(2, 3, 'e'), 11);
+        sentence.answers("heights stay", Beaches.LEVEL,
+                b -> { b.addWall(2, 3, 'e'); return b.sand() + " " + b.topplings(2, 3); }, "126 0");
     }
 
     private void promise10Returns() {
@@ -63,9 +66,11 @@ final class WallsTest {
         sentence.same("the last one", due - 1, Beaches.MOST_WALLS);
         sentence.same("after one less", beach.removeWall(2, 2, 'e') * 100 + beach.addWall(3, 2, 'w'), 3435);
         sentence.answers("by the sea", Beaches.EMPTY, b -> b.addWall(0, 0, 's') * 10 + b.addWall(5, 0, 's'), 12);
-        sentence.answers("after one that was refused", b -> { b.addWall(0, 6, 's'); Sentence.outcome(b, x -> x.addWall(0, 6, 'e')); },
+        sentence.answers("after one that was refused",
+                b -> { b.addWall(0, 6, 's'); Sentence.outcome(b, x -> x.addWall(0, 6, 'e')); },
                 b -> b.addWall(3, 3, 's'), 2);
-        sentence.answers("after one that stands", b -> { b.addWall(0, 6, 's'); Sentence.outcome(b, x -> x.addWall(0, 5, 'l')); },
+        sentence.answers("after one that stands",
+                b -> { b.addWall(0, 6, 's'); Sentence.outcome(b, x -> x.addWall(0, 5, 'l')); },
                 b -> b.addWall(3, 3, 's'), 2);
     }
 
@@ -76,9 +81,11 @@ final class WallsTest {
         sentence.refuses("twice to the east", THREE, b -> b.addWall(2, 2, 'e'), Sentence.WRONG_STATE);
         sentence.refuses("twice, from the east", THREE, b -> b.addWall(3, 2, 'w'), Sentence.WRONG_STATE);
         sentence.refuses("twice by the sea", THREE, b -> b.addWall(4, 0, 's'), Sentence.WRONG_STATE);
-        sentence.refuses("again after it was removed", Beaches.all(THREE, b -> b.removeWall(2, 2, 'l'), b -> b.addWall(2, 3, 's')),
+        sentence.refuses("again after it was removed",
+                Beaches.all(THREE, b -> b.removeWall(2, 2, 'l'), b -> b.addWall(2, 3, 's')),
                 b -> b.addWall(2, 2, 'l'), Sentence.WRONG_STATE);
-        sentence.answers("not after it was removed", Beaches.all(THREE, b -> b.removeWall(2, 2, 'l')), b -> b.addWall(2, 3, 's'), 3);
+        sentence.answers("not after it was removed", Beaches.all(THREE, b -> b.removeWall(2, 2, 'l')),
+                b -> b.addWall(2, 3, 's'), 3);
         for (int cell = 0; cell < Beaches.CELLS; cell++) {
             for (char side : Beaches.SIDES.toCharArray()) {
                 int column = Beaches.columnOf(cell);
@@ -87,7 +94,8 @@ final class WallsTest {
                 sentence.answers("on an empty beach at " + column + "," + row + " " + side, Beaches.EMPTY,
                         b -> b.addWall(column, row, side), edge ? (Object) "throws.IllegalStateException" : (Object) 1);
                 if (edge) {
-                    sentence.refuses("the edge at " + column + "," + row + " " + side, THREE, b -> b.addWall(column, row, side),
+                    sentence.refuses("the edge at " + column + "," + row + " " + side, THREE,
+                            b -> b.addWall(column, row, side),
                             Sentence.WRONG_STATE);
                 }
             }
@@ -95,7 +103,8 @@ final class WallsTest {
     }
 
     private void promise10CutOff() {
-        Sentence sentence = document.promise(10, "Throws UnsupportedOperationException if there would be no way from some cell to the sea");
+        Sentence sentence = document.promise(10,
+                "Throws UnsupportedOperationException if there would be no way from some cell to the sea");
         sentence.refuses("the last way to the sea", Beaches.DAMS, b -> b.addWall(5, 0, 's'), Sentence.CUT_OFF);
         sentence.answers("the last but one", b -> {
             for (int column = 1; column < 5; column++) {
@@ -106,7 +115,8 @@ final class WallsTest {
         sentence.refuses("a corner", corner, b -> b.addWall(0, 6, 'e'), Sentence.CUT_OFF);
         sentence.refuses("a corner, from outside", corner, b -> b.addWall(1, 6, 'w'), Sentence.CUT_OFF);
         Beaches.Setup three = b -> { b.addWall(3, 3, 's'); b.addWall(3, 3, 'l'); b.addWall(3, 3, 'w'); };
-        sentence.answers("three sides of a cell", three, b -> b.isClosed(3, 3, 'w') + " " + b.isClosed(3, 3, 'e'), "true false");
+        sentence.answers("three sides of a cell", three, b -> b.isClosed(3, 3, 'w') + " " + b.isClosed(3, 3, 'e'),
+                "true false");
         sentence.refuses("four sides of a cell", three, b -> b.addWall(3, 3, 'e'), Sentence.CUT_OFF);
         sentence.refuses("four sides of a cell, from outside", three, b -> b.addWall(4, 3, 'w'), Sentence.CUT_OFF);
         Beaches.Setup line = b -> {
@@ -123,16 +133,21 @@ final class WallsTest {
             }
         });
         sentence.answers("a column with one way out", strip, b -> b.addWall(2, 6, 'w'), 14);
-        sentence.refuses("a column without a way out", Beaches.all(strip, b -> b.addWall(2, 6, 'w')), b -> b.addWall(3, 6, 'w'), Sentence.CUT_OFF);
-        sentence.refuses("sand is no bridge", Beaches.all(corner, Beaches.planted(1, 6, 7)), b -> b.addWall(0, 6, 'e'), Sentence.CUT_OFF);
-        sentence.answers("sand does not cut off", Beaches.all(corner, Beaches.planted(1, 6, 7)), b -> b.addWall(2, 6, 'w'), 2);
+        sentence.refuses("a column without a way out", Beaches.all(strip, b -> b.addWall(2, 6, 'w')),
+                b -> b.addWall(3, 6, 'w'), Sentence.CUT_OFF);
+        sentence.refuses("sand is no bridge", Beaches.all(corner, Beaches.planted(1, 6, 7)), b -> b.addWall(0, 6, 'e'),
+                Sentence.CUT_OFF);
+        sentence.answers("sand does not cut off", Beaches.all(corner, Beaches.planted(1, 6, 7)),
+                b -> b.addWall(2, 6, 'w'), 2);
         sentence.answers("nor does a beach full of sand", Beaches.PLANTED, b -> b.addWall(0, 6, 's'), 1);
-        sentence.answers("not once a way is open again", Beaches.all(Beaches.DAMS, b -> b.removeWall(0, 0, 's')), b -> b.addWall(5, 0, 's'), 5);
+        sentence.answers("not once a way is open again", Beaches.all(Beaches.DAMS, b -> b.removeWall(0, 0, 's')),
+                b -> b.addWall(5, 0, 's'), 5);
     }
 
     /** With 35 walls each side that is open is the only way for some cell. */
     private void promise10CutOffFull() {
-        Sentence sentence = document.promise(10, "Throws UnsupportedOperationException if there would be no way from some cell to the sea");
+        Sentence sentence = document.promise(10,
+                "Throws UnsupportedOperationException if there would be no way from some cell to the sea");
         fullOfWalls(sentence, "comb", Beaches.COMB);
         fullOfWalls(sentence, "snake", Beaches.SNAKE);
         sentence.refuses("comb by the sea", Beaches.COMB, b -> b.addWall(0, 0, 's'), Sentence.CUT_OFF);
@@ -164,12 +179,17 @@ final class WallsTest {
             return b.isClosed(2, 2, 'e') + " " + b.isClosed(3, 2, 'w'); }, "false false");
         sentence.answers("the others stand", THREE, b -> { b.removeWall(2, 2, 'l');
             return b.isClosed(2, 2, 'e') + " " + b.isClosed(4, 0, 's'); }, "true true");
-        sentence.answers("the sea is back", THREE, b -> { b.removeWall(4, 0, 's'); return b.pour(4, 0, 4) * 10 + b.sea(); }, 11);
-        sentence.answers("the cell behind is back", THREE, b -> { b.removeWall(2, 2, 'l'); return b.pour(2, 2, 4) * 10 + b.height(2, 3); }, 11);
-        sentence.answers("a wave comes through", b -> b.addWall(2, 2, 's'), b -> b.wave(2, 60) * 100 + b.removeWall(2, 2, 's') * 10
+        sentence.answers("the sea is back", THREE,
+                b -> { b.removeWall(4, 0, 's'); return b.pour(4, 0, 4) * 10 + b.sea(); }, 11);
+        sentence.answers("the cell behind is back", THREE,
+                b -> { b.removeWall(2, 2, 'l'); return b.pour(2, 2, 4) * 10 + b.height(2, 3); }, 11);
+        sentence.answers("a wave comes through", b -> b.addWall(2, 2, 's'),
+                b -> b.wave(2, 60) * 100 + b.removeWall(2, 2, 's') * 10
                 + b.wave(2, 60), 207);
-        sentence.answers("nothing slides", Beaches.all(Beaches.LEVEL, THREE), b -> { b.removeWall(2, 2, 'l'); return b.sand() + " " + b.topplings(2, 2); }, "126 0");
-        sentence.answers("what has flowed stays counted", b -> { b.pour(2, 3, 4); b.addWall(2, 3, 'e'); b.removeWall(2, 3, 'e'); },
+        sentence.answers("nothing slides", Beaches.all(Beaches.LEVEL, THREE),
+                b -> { b.removeWall(2, 2, 'l'); return b.sand() + " " + b.topplings(2, 2); }, "126 0");
+        sentence.answers("what has flowed stays counted",
+                b -> { b.pour(2, 3, 4); b.addWall(2, 3, 'e'); b.removeWall(2, 3, 'e'); },
                 b -> b.flow(2, 3, 'e') + " " + b.flow(3, 3, 'w'), "1 -1");
     }
 
@@ -185,7 +205,8 @@ final class WallsTest {
         sentence.same("none is left", due, 0);
         sentence.answers("by the sea", THREE, b -> b.removeWall(4, 0, 's'), 2);
         sentence.answers("built again", THREE, b -> b.removeWall(2, 2, 'l') * 10 + b.addWall(2, 3, 's'), 23);
-        sentence.answers("after one that was refused", Beaches.all(THREE, b -> Sentence.outcome(b, x -> x.removeWall(0, 0, 's'))),
+        sentence.answers("after one that was refused",
+                Beaches.all(THREE, b -> Sentence.outcome(b, x -> x.removeWall(0, 0, 's'))),
                 b -> b.removeWall(2, 2, 'l'), 2);
     }
 
@@ -207,10 +228,14 @@ final class WallsTest {
         sentence.refuses("the same side of the cell behind", THREE, b -> b.removeWall(2, 3, 'l'), Sentence.NONE_THERE);
         sentence.refuses("beside the wall by the sea", THREE, b -> b.removeWall(3, 0, 's'), Sentence.NONE_THERE);
         sentence.refuses("an open way between all walls", Beaches.SNAKE, b -> b.removeWall(5, 0, 's'), Sentence.NONE_THERE);
-        sentence.refuses("twice", Beaches.all(THREE, b -> b.removeWall(2, 2, 'l')), b -> b.removeWall(2, 2, 'l'), Sentence.NONE_THERE);
-        sentence.refuses("twice, from behind", Beaches.all(THREE, b -> b.removeWall(2, 2, 'l')), b -> b.removeWall(2, 3, 's'), Sentence.NONE_THERE);
-        sentence.refuses("twice by the sea", Beaches.all(THREE, b -> b.removeWall(4, 0, 's')), b -> b.removeWall(4, 0, 's'), Sentence.NONE_THERE);
-        sentence.refuses("one that could not be built", Beaches.all(Beaches.DAMS, b -> Sentence.outcome(b, x -> x.addWall(5, 0, 's'))),
+        sentence.refuses("twice", Beaches.all(THREE, b -> b.removeWall(2, 2, 'l')), b -> b.removeWall(2, 2, 'l'),
+                Sentence.NONE_THERE);
+        sentence.refuses("twice, from behind", Beaches.all(THREE, b -> b.removeWall(2, 2, 'l')),
+                b -> b.removeWall(2, 3, 's'), Sentence.NONE_THERE);
+        sentence.refuses("twice by the sea", Beaches.all(THREE, b -> b.removeWall(4, 0, 's')),
+                b -> b.removeWall(4, 0, 's'), Sentence.NONE_THERE);
+        sentence.refuses("one that could not be built",
+                Beaches.all(Beaches.DAMS, b -> Sentence.outcome(b, x -> x.addWall(5, 0, 's'))),
                 b -> b.removeWall(5, 0, 's'), Sentence.NONE_THERE);
     }
 
@@ -228,8 +253,10 @@ final class WallsTest {
                 sentence.same("three walls at " + place, beach.isClosed(column, row, side), due);
             }
         }
-        sentence.answers("a wall that is gone", Beaches.all(THREE, b -> b.removeWall(4, 0, 's')), b -> b.isClosed(4, 0, 's'), false);
-        sentence.answers("a wall that could not be built", Beaches.all(Beaches.DAMS, b -> Sentence.outcome(b, x -> x.addWall(5, 0, 's'))),
+        sentence.answers("a wall that is gone", Beaches.all(THREE, b -> b.removeWall(4, 0, 's')),
+                b -> b.isClosed(4, 0, 's'), false);
+        sentence.answers("a wall that could not be built",
+                Beaches.all(Beaches.DAMS, b -> Sentence.outcome(b, x -> x.addWall(5, 0, 's'))),
                 b -> b.isClosed(5, 0, 's'), false);
         sentence.answers("sand does not close", Beaches.PLANTED, b -> b.isClosed(2, 2, 'l') || b.isClosed(2, 0, 's'), false);
         sentence.changesNothing("asked", Beaches.BUSY, b -> b.isClosed(2, 2, 'l'));

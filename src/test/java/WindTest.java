@@ -27,8 +27,10 @@ final class WindTest {
         sentence.answers("planted, 1 grain", Beaches.planted(2, 0, 1), wind(1), "0 1000000");
         sentence.answers("planted, 7 grains", Beaches.planted(2, 0, 7), wind(1), "0 7000000");
         sentence.answers("bare, 3 grains", Beaches.column(2, "3"), wind(1), "1 2100000");
-        sentence.answers("a planted cell is given to", Beaches.all(Beaches.column(2, "1"), b -> b.plant(2, 1)), wind(1), "1 0100000");
-        sentence.answers("no longer planted", Beaches.all(Beaches.planted(2, 0, 1), b -> b.uproot(2, 0)), wind(1), "1 0100000");
+        sentence.answers("a planted cell is given to", Beaches.all(Beaches.column(2, "1"), b -> b.plant(2, 1)), wind(1),
+                "1 0100000");
+        sentence.answers("no longer planted", Beaches.all(Beaches.planted(2, 0, 1), b -> b.uproot(2, 0)), wind(1),
+                "1 0100000");
         sentence.answers("all planted", Beaches.PLANTED, wind(1), "0 7777777");
     }
 
@@ -55,15 +57,19 @@ final class WindTest {
             String after = row == 6 ? before : "0".repeat(row + 1) + "1" + "0".repeat(5 - row);
             sentence.answers("from the row " + row, one, wind(1), (row == 6 ? 0 : 1) + " " + after);
             if (row < 6) {
-                sentence.answers("over a wall on the row " + row, Beaches.all(one, b -> b.addWall(2, here, 'l')), wind(1), "0 " + before);
-                sentence.answers("over a wall behind the row " + row, Beaches.all(one, b -> b.addWall(2, here + 1, 's')), wind(1), "0 " + before);
-                sentence.answers("over other walls, row " + row, Beaches.all(one, b -> b.addWall(2, here, 'e'), b -> b.addWall(2, here, 's')),
+                sentence.answers("over a wall on the row " + row, Beaches.all(one, b -> b.addWall(2, here, 'l')),
+                        wind(1), "0 " + before);
+                sentence.answers("over a wall behind the row " + row, Beaches.all(one, b -> b.addWall(2, here + 1, 's')),
+                        wind(1), "0 " + before);
+                sentence.answers("over other walls, row " + row,
+                        Beaches.all(one, b -> b.addWall(2, here, 'e'), b -> b.addWall(2, here, 's')),
                         wind(1), "1 " + after);
             }
         }
         sentence.answers("nothing into the sea or out of it", b -> b.pour(2, 0, 7), b -> { int before = b.sea(); b.wind(1);
             return b.sea() - before; }, 0);
-        sentence.answers("its own column", Beaches.column(2, "1"), b -> b.wind(1) + b.height(1, 0) + b.height(3, 0) + b.height(1, 1) + b.height(3, 1), 1);
+        sentence.answers("its own column", Beaches.column(2, "1"),
+                b -> b.wind(1) + b.height(1, 0) + b.height(3, 0) + b.height(1, 1) + b.height(3, 1), 1);
     }
 
     private void atTheSameTime() {
@@ -78,14 +84,19 @@ final class WindTest {
 
     private void settles() {
         Sentence sentence = document.term("Wind", "Then the beach settles");
-        sentence.answers("3 and 1 slide", b -> { b.pour(2, 4, 3); b.addWall(2, 5, 'l'); b.pour(2, 5, 3); }, b -> b.wind(1) + " "
+        sentence.answers("3 and 1 slide", b -> { b.pour(2, 4, 3); b.addWall(2, 5, 'l'); b.pour(2, 5, 3); },
+                b -> b.wind(1) + " "
                 + Beaches.heights(b, 2) + " " + b.topplings(2, 5) + " " + b.height(1, 5) + b.height(3, 5), "1 0000310 1 11");
-        sentence.answers("in the last row", b -> { b.pour(1, 5, 3); b.pour(1, 6, 3); }, b -> b.wind(1) + " " + Beaches.heights(b, 1)
+        sentence.answers("in the last row", b -> { b.pour(1, 5, 3); b.pour(1, 6, 3); },
+                b -> b.wind(1) + " " + Beaches.heights(b, 1)
                 + " " + b.height(0, 6) + b.height(2, 6) + b.flow(1, 6, 's') + b.flow(1, 5, 'l'), "1 0000031 111-1");
-        sentence.answers("planted, 7 and 1 slide", Beaches.all(Beaches.column(2, "1"), Beaches.planted(2, 1, 7)), wind(1), "1 1410000");
-        sentence.answers("planted, 6 and 1 stay", Beaches.all(Beaches.column(2, "1"), Beaches.planted(2, 1, 6)), wind(1), "1 0700000");
+        sentence.answers("planted, 7 and 1 slide", Beaches.all(Beaches.column(2, "1"), Beaches.planted(2, 1, 7)),
+                wind(1), "1 1410000");
+        sentence.answers("planted, 6 and 1 stay", Beaches.all(Beaches.column(2, "1"), Beaches.planted(2, 1, 6)), wind(1),
+                "1 0700000");
         sentence.answers("none slides that has given one away", Beaches.column(2, "3310000"), wind(3), "2 2320000");
-        sentence.answers("into the sea", Beaches.all(Beaches.column(1, "1"), Beaches.planted(1, 1, 7), Beaches.planted(2, 1, 7),
+        sentence.answers("into the sea", Beaches.all(Beaches.column(1, "1"), Beaches.planted(1, 1, 7),
+                Beaches.planted(2, 1, 7),
                 Beaches.planted(2, 0, 7)), b -> b.wind(1) + " " + b.sea(), "1 1");
     }
 
